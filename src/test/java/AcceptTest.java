@@ -1,0 +1,87 @@
+/** Promise 7: a set of authors accepts a range. */
+public final class AcceptTest {
+    public static void main(String[] args) {
+        erased();
+        inserted();
+        formatted();
+        severalAtOnce();
+        rangeAlone();
+        wrongArguments();
+        Check.end();
+    }
+
+    private static void erased() {
+        ChangeTracker x = Check.holding("ab");
+        Check.tracked(x, 1);
+        x.erase(0, 1);
+        x.author(2);
+        x.erase(0, 2);
+        Check.is("accept by others", x.accept(0, 2, 255 - 6), 0);
+        Check.is("accept by one of two", x.accept(0, 2, 2), 1);
+        Check.is("the text", Check.text(x), "b:0 0/4/0/-1");
+        Check.is("accept by several", x.accept(0, 1, 255), 1);
+        Check.is("length(0)", x.length(0), 0);
+    }
+
+    private static void inserted() {
+        ChangeTracker x = Check.holding("a");
+        Check.tracked(x, 3);
+        x.insert(1, Check.codes("bc"), 5);
+        x.author(4);
+        x.erase(2, 1);
+        Check.is("accept by others", x.accept(0, 3, 255 - 8 - 16), 0);
+        Check.is("accept by the inserter", x.accept(0, 3, 8), 2);
+        Check.is("the text", Check.text(x), "a:0 0/0/0/-1, b:5 0/0/0/-1, c:5 0/16/0/-1");
+    }
+
+    private static void formatted() {
+        ChangeTracker x = Check.holding("a");
+        Check.tracked(x, 5);
+        x.format(0, 1, 9);
+        x.author(6);
+        x.format(0, 1, 10);
+        Check.is("accept by others", x.accept(0, 1, 255 - 32 - 64), 0);
+        Check.is("accept by one of two", x.accept(0, 1, 32), 1);
+        Check.is("the format stays", Check.letter(x, 0), "a:10 0/0/0/-1");
+        Check.is("accept of a plain one", x.accept(0, 1, 255), 0);
+    }
+
+    private static void severalAtOnce() {
+        ChangeTracker x = new ChangeTracker();
+        Check.tracked(x, 1);
+        x.insert(0, Check.codes("abcd"), 5);
+        x.author(2);
+        x.format(0, 4, 6);
+        x.author(3);
+        x.erase(3, 1);
+        Check.is("accept by the inserter", x.accept(0, 1, 2), 1);
+        Check.is("accept by the formatter", x.accept(1, 1, 4), 1);
+        Check.is("accept by both", x.accept(2, 1, 6), 1);
+        Check.is("the text", Check.text(x), "a:6 0/0/4/5, b:6 2/0/0/-1, c:6 0/0/0/-1, d:6 2/8/4/5");
+        Check.is("the eraser comes first", x.accept(3, 1, 14), 1);
+        Check.is("length(0)", x.length(0), 3);
+    }
+
+    private static void rangeAlone() {
+        ChangeTracker x = new ChangeTracker();
+        Check.tracked(x, 1);
+        x.insert(0, Check.codes("abcd"), 0);
+        Check.is("accept(1, 2, 2)", x.accept(1, 2, 2), 2);
+        Check.is("the text", Check.text(x), "a:0 2/0/0/-1, b:0 0/0/0/-1, c:0 0/0/0/-1, d:0 2/0/0/-1");
+        Check.is("accept(4, 0, 2)", x.accept(4, 0, 2), 0);
+        Check.is("accept is an edit", x.undo(), 1);
+        Check.is("mark(1, 0) behind undo()", x.mark(1, 0), 2);
+    }
+
+    private static void wrongArguments() {
+        ChangeTracker x = Check.holding("abc");
+        Check.index("accept(0, 4, 1)", x, () -> x.accept(0, 4, 1));
+        Check.index("accept(-1, 1, 1)", x, () -> x.accept(-1, 1, 1));
+        Check.index("accept(1, -1, 1)", x, () -> x.accept(1, -1, 1));
+        Check.index("accept(3, MAX, 1)", x, () -> x.accept(3, Integer.MAX_VALUE, 1));
+        Check.argument("accept(0, 3, 0)", x, () -> x.accept(0, 3, 0));
+        Check.argument("accept(0, 3, 256)", x, () -> x.accept(0, 3, 256));
+        Check.argument("accept(0, 0, -1)", x, () -> x.accept(0, 0, -1));
+        Check.index("no range, no set", x, () -> x.accept(4, 0, 0));
+    }
+}

@@ -1,0 +1,57 @@
+/** Promise 2: author() lets another author be at work, and is no edit. */
+public final class AuthorTest {
+    public static void main(String[] args) {
+        answersWhoWasBefore();
+        wrongAuthors();
+        editsAreTheAuthors();
+        isNoEdit();
+        Check.end();
+    }
+
+    private static void answersWhoWasBefore() {
+        ChangeTracker x = new ChangeTracker();
+        int before = 0;
+        for (int author = 7; author >= 0; author--) {
+            Check.is("author(" + author + ")", x.author(author), before);
+            before = author;
+        }
+        Check.is("author(0), the same one", x.author(0), 0);
+    }
+
+    private static void wrongAuthors() {
+        ChangeTracker x = new ChangeTracker();
+        x.author(6);
+        int[] wrong = {-1, 8, 9, 255, Integer.MIN_VALUE, Integer.MAX_VALUE};
+        for (int author : wrong) {
+            Check.argument("author(" + author + ")", x, () -> x.author(author));
+        }
+        Check.is("author(6) behind wrong ones", x.author(6), 6);
+    }
+
+    private static void editsAreTheAuthors() {
+        for (int author = 0; author < 8; author++) {
+            ChangeTracker x = Check.holding("ab");
+            Check.tracked(x, author);
+            x.insert(0, Check.codes("n"), 0);
+            x.erase(1, 1);
+            x.format(2, 1, 9);
+            int bit = 1 << author;
+            Check.is("author " + author, Check.text(x),
+                "n:0 " + bit + "/0/0/-1, a:0 0/" + bit + "/0/-1, b:9 0/0/" + bit + "/0");
+        }
+    }
+
+    private static void isNoEdit() {
+        ChangeTracker x = Check.holding("ab");
+        x.author(4);
+        x.undo();
+        Check.is("author() behind undo()", x.author(5), 4);
+        Check.is("count(3) behind author()", x.count(3), 1);
+        x.redo();
+        Check.is("author() behind redo()", x.author(2), 5);
+        x.open();
+        x.author(1);
+        Check.is("close() of a group with author() alone", x.close(), 0);
+        Check.is("count(2)", x.count(2), 1);
+    }
+}

@@ -1,0 +1,37 @@
+/** Promise 13: length() of the three views. */
+public final class LengthTest {
+    public static void main(String[] args) {
+        views();
+        noSuchView();
+        Check.end();
+    }
+
+    private static void views() {
+        ChangeTracker x = Check.holding("abcd");
+        Check.tracked(x, 1);
+        x.insert(4, Check.codes("efg"), 0);
+        x.format(0, 2, 9);
+        lengths(x, 7, 7, 4);
+        x.erase(0, 1);
+        lengths(x, 7, 6, 4);
+        x.author(2);
+        x.erase(0, 6);
+        lengths(x, 7, 1, 4);
+        x.reject(0, 7, 6);
+        lengths(x, 4, 4, 4);
+    }
+
+    private static void lengths(ChangeTracker x, int all, int accepted, int rejected) {
+        Check.is("length(0)", x.length(0), all);
+        Check.is("length(1)", x.length(1), accepted);
+        Check.is("length(2)", x.length(2), rejected);
+    }
+
+    private static void noSuchView() {
+        ChangeTracker x = Check.holding("abcd");
+        int[] wrong = {-1, 3, 4, Integer.MIN_VALUE, Integer.MAX_VALUE};
+        for (int view : wrong) {
+            Check.is("length(" + view + ")", x.length(view), -1);
+        }
+    }
+}

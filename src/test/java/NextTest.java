@@ -1,0 +1,43 @@
+/** Promise 16: next() finds the next character that one of a set of authors marked. */
+public final class NextTest {
+    public static void main(String[] args) {
+        finds();
+        wrongArguments();
+        Check.end();
+    }
+
+    private static void finds() {
+        ChangeTracker x = Check.holding("abcdef");
+        Check.tracked(x, 1);
+        x.insert(6, Check.codes("g"), 0);
+        x.author(2);
+        x.erase(3, 1);
+        x.author(3);
+        x.format(1, 1, 9);
+        Check.is("next(0, 255)", x.next(0, 255), 1);
+        Check.is("next(1, 255), the place itself", x.next(1, 255), 1);
+        Check.is("next(2, 255)", x.next(2, 255), 3);
+        Check.is("next(4, 255)", x.next(4, 255), 6);
+        Check.is("next(0, 2), inserted", x.next(0, 2), 6);
+        Check.is("next(0, 4), erased", x.next(0, 4), 3);
+        Check.is("next(0, 8), formatted", x.next(0, 8), 1);
+        Check.is("next(0, 6)", x.next(0, 6), 3);
+        Check.is("next(2, 8)", x.next(2, 8), -1);
+        Check.is("next(0, 255 - 14)", x.next(0, 255 - 14), -1);
+        Check.is("next(7, 255), the length", x.next(7, 255), -1);
+    }
+
+    private static void wrongArguments() {
+        ChangeTracker x = Check.holding("abc");
+        int[] places = {-1, 4, Integer.MIN_VALUE, Integer.MAX_VALUE};
+        for (int at : places) {
+            Check.index("next(" + at + ", 1)", x, () -> x.next(at, 1));
+            Check.index("next(" + at + ", 0)", x, () -> x.next(at, 0));
+        }
+        int[] sets = {0, -1, 256, Integer.MIN_VALUE, Integer.MAX_VALUE};
+        for (int authors : sets) {
+            Check.argument("next(0, " + authors + ")", x, () -> x.next(0, authors));
+            Check.argument("next(3, " + authors + ")", x, () -> x.next(3, authors));
+        }
+    }
+}

@@ -1,0 +1,86 @@
+/** Promise 8: a set of authors rejects a range. */
+public final class RejectTest {
+    public static void main(String[] args) {
+        inserted();
+        erased();
+        formatted();
+        severalAtOnce();
+        rangeAlone();
+        wrongArguments();
+        Check.end();
+    }
+
+    private static void inserted() {
+        ChangeTracker x = Check.holding("a");
+        Check.tracked(x, 3);
+        x.insert(1, Check.codes("b"), 5);
+        Check.is("reject by others", x.reject(0, 2, 255 - 8), 0);
+        Check.is("reject by the inserter", x.reject(0, 2, 8), 1);
+        Check.is("the text", Check.text(x), "a:0 0/0/0/-1");
+    }
+
+    private static void erased() {
+        ChangeTracker x = Check.holding("ab");
+        for (int author = 1; author <= 3; author++) {
+            Check.tracked(x, author);
+            x.erase(0, 1);
+        }
+        Check.is("reject by others", x.reject(0, 2, 255 - 14), 0);
+        Check.is("reject by one of three", x.reject(0, 2, 4 + 128), 1);
+        Check.is("the text", Check.letter(x, 0), "a:0 0/10/0/-1");
+        Check.is("reject by both", x.reject(0, 2, 255), 1);
+        Check.is("the text", Check.text(x), "a:0 0/0/0/-1, b:0 0/0/0/-1");
+    }
+
+    private static void formatted() {
+        ChangeTracker x = Check.holding("a");
+        x.format(0, 1, 3);
+        Check.tracked(x, 5);
+        x.format(0, 1, 9);
+        x.author(6);
+        x.format(0, 1, 10);
+        Check.is("reject by others", x.reject(0, 1, 255 - 32 - 64), 0);
+        Check.is("reject by one of two", x.reject(0, 1, 64), 1);
+        Check.is("the old format", Check.letter(x, 0), "a:3 0/0/0/-1");
+        Check.is("reject of a plain one", x.reject(0, 1, 255), 0);
+    }
+
+    private static void severalAtOnce() {
+        ChangeTracker x = new ChangeTracker();
+        Check.tracked(x, 1);
+        x.insert(0, Check.codes("abcd"), 5);
+        x.author(2);
+        x.format(0, 4, 6);
+        x.author(3);
+        x.erase(0, 4);
+        Check.is("reject by the formatter", x.reject(0, 1, 4), 1);
+        Check.is("reject by the eraser", x.reject(1, 1, 8), 1);
+        Check.is("reject by both", x.reject(2, 1, 12), 1);
+        Check.is("the text", Check.text(x), "a:5 2/8/0/-1, b:6 2/0/4/5, c:5 2/0/0/-1, d:6 2/8/4/5");
+        Check.is("the inserter comes first", x.reject(3, 1, 14), 1);
+        Check.is("length(0)", x.length(0), 3);
+    }
+
+    private static void rangeAlone() {
+        ChangeTracker x = Check.holding("abcd");
+        Check.tracked(x, 1);
+        x.erase(0, 4);
+        Check.is("reject(1, 2, 2)", x.reject(1, 2, 2), 2);
+        Check.is("the text", Check.text(x), "a:0 0/2/0/-1, b:0 0/0/0/-1, c:0 0/0/0/-1, d:0 0/2/0/-1");
+        Check.is("reject(4, 0, 2)", x.reject(4, 0, 2), 0);
+        Check.is("reject is an edit", x.undo(), 1);
+        Check.is("mark(1, 1) behind undo()", x.mark(1, 1), 2);
+    }
+
+    private static void wrongArguments() {
+        ChangeTracker x = Check.holding("abc");
+        Check.index("reject(0, 4, 1)", x, () -> x.reject(0, 4, 1));
+        Check.index("reject(-1, 1, 1)", x, () -> x.reject(-1, 1, 1));
+        Check.index("reject(1, -1, 1)", x, () -> x.reject(1, -1, 1));
+        Check.index("reject(3, MAX, 1)", x, () -> x.reject(3, Integer.MAX_VALUE, 1));
+        Check.argument("reject(0, 3, 0)", x, () -> x.reject(0, 3, 0));
+        Check.argument("reject(0, 3, 256)", x, () -> x.reject(0, 3, 256));
+        Check.argument("reject(0, 0, -1)", x, () -> x.reject(0, 0, -1));
+        Check.index("no range, no set", x, () -> x.reject(4, 0, 0));
+    }
+}
