@@ -7,7 +7,7 @@ public final class ChangeTracker {
     private static final int MOST_GROUPS = 40;
     private static final int MOST_WEIGHT = 3000;
     private static final int AUTHORS = 8;
-    private static final int BITS_OF_CODES = 64;
+    private static final int MOST_CODES = 8;
     private static final int BITS_OF_CODE = 8;
     private static final int HIGHEST_BYTE = 255;
     private static final int VIEW_ALL = 0;
@@ -236,7 +236,7 @@ public final class ChangeTracker {
 
     private static int howManyCodes(long codes) {
         int n = 0;
-        while (n < BITS_OF_CODES / BITS_OF_CODE && codeAt(codes, n) != 0) {
+        while (n < MOST_CODES && codeAt(codes, n) != 0) {
             n++;
         }
         return n;
@@ -257,7 +257,7 @@ public final class ChangeTracker {
         if (weight == 0) {
             return;
         }
-        history.record(text, weight);
+        history.recordEdit(text, weight);
         Text before = text;
         text = draft;
         draft = before;
@@ -345,10 +345,10 @@ public final class ChangeTracker {
 
     private int countRuns() {
         int runs = 0;
-        long before = 0L;
+        long before = Letter.PLAIN;
         for (int place = 0; place < text.size; place++) {
             long mark = Letter.markOf(text.at(place));
-            if (mark != Letter.PLAIN && (place == 0 || mark != before)) {
+            if (mark != Letter.PLAIN && mark != before) {
                 runs++;
             }
             before = mark;
@@ -519,7 +519,7 @@ public final class ChangeTracker {
         boolean isOpen = false;
         private boolean isBegun = false;
 
-        void record(Text before, int weight) {
+        void recordEdit(Text before, int weight) {
             undone = 0;
             Group group = groupBeingMade();
             if (!isBegun) {

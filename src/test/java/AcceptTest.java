@@ -6,6 +6,7 @@ public final class AcceptTest {
         formatted();
         severalAtOnce();
         rangeAlone();
+        authorZero();
         wrongArguments();
         Check.end();
     }
@@ -71,6 +72,15 @@ public final class AcceptTest {
         Check.is("accept(4, 0, 2)", x.accept(4, 0, 2), 0);
         Check.is("accept is an edit", x.undo(), 1);
         Check.is("mark(1, 0) behind undo()", x.mark(1, 0), 2);
+    }
+
+    private static void authorZero() {
+        ChangeTracker x = Check.holding("ab");
+        Check.tracked(x, 0);
+        x.erase(0, 1);
+        Check.is("accept(0, 2, 254)", x.accept(0, 2, 254), 0);
+        Check.is("accept(0, 2, 1)", x.accept(0, 2, 1), 1);
+        Check.is("length(0)", x.length(0), 1);
     }
 
     private static void wrongArguments() {

@@ -8,6 +8,7 @@ public final class CountTest {
         weightOfEachEdit();
         weightIsTrimmed();
         everyMarkAnotherOne();
+        notBehindTheEnd();
         noSuchWhat();
         Check.end();
     }
@@ -123,6 +124,17 @@ public final class CountTest {
         runs(x, 250, 250);
         x.format(250 - 1, 1, 249);
         runs(x, 249, 249);
+    }
+
+    private static void notBehindTheEnd() {
+        ChangeTracker x = Check.holding("abcd");
+        Check.tracked(x, 1);
+        x.erase(0, 4);
+        x.track(false);
+        x.erase(0, 4);
+        x.insert(0, Check.codes("e"), 0);
+        x.insert(1, Check.codes("f"), 0);
+        runs(x, 0, 0);
     }
 
     private static void noSuchWhat() {

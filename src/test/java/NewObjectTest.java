@@ -40,6 +40,9 @@ public final class NewObjectTest {
         Check.state("undo()", x, x::undo);
         Check.state("redo()", x, x::redo);
         Check.state("close()", x, x::close);
+        x.open();
+        Check.is("close() of the first group, without edits", x.close(), 0);
+        Check.is("count(2)", x.count(2), 0);
     }
 
     private static void objectsAreApart() {

@@ -2,6 +2,8 @@
 public final class NextTest {
     public static void main(String[] args) {
         finds();
+        authorZero();
+        notBehindTheEnd();
         wrongArguments();
         Check.end();
     }
@@ -25,6 +27,25 @@ public final class NextTest {
         Check.is("next(2, 8)", x.next(2, 8), -1);
         Check.is("next(0, 255 - 14)", x.next(0, 255 - 14), -1);
         Check.is("next(7, 255), the length", x.next(7, 255), -1);
+    }
+
+    private static void authorZero() {
+        ChangeTracker x = Check.holding("abc");
+        Check.tracked(x, 0);
+        x.erase(1, 1);
+        Check.is("next(0, 1)", x.next(0, 1), 1);
+        Check.is("next(0, 254)", x.next(0, 254), -1);
+    }
+
+    private static void notBehindTheEnd() {
+        ChangeTracker x = Check.holding("abcd");
+        Check.tracked(x, 1);
+        x.erase(0, 4);
+        x.track(false);
+        x.erase(0, 4);
+        x.insert(0, Check.codes("e"), 0);
+        x.insert(1, Check.codes("f"), 0);
+        Check.is("next(0, 255) of plain ones", x.next(0, 255), -1);
     }
 
     private static void wrongArguments() {

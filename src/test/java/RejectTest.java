@@ -6,6 +6,7 @@ public final class RejectTest {
         formatted();
         severalAtOnce();
         rangeAlone();
+        authorZero();
         wrongArguments();
         Check.end();
     }
@@ -70,6 +71,15 @@ public final class RejectTest {
         Check.is("reject(4, 0, 2)", x.reject(4, 0, 2), 0);
         Check.is("reject is an edit", x.undo(), 1);
         Check.is("mark(1, 1) behind undo()", x.mark(1, 1), 2);
+    }
+
+    private static void authorZero() {
+        ChangeTracker x = Check.holding("ab");
+        Check.tracked(x, 0);
+        x.erase(0, 1);
+        Check.is("reject(0, 2, 254)", x.reject(0, 2, 254), 0);
+        Check.is("reject(0, 2, 1)", x.reject(0, 2, 1), 1);
+        Check.is("length(0)", x.length(0), 2);
     }
 
     private static void wrongArguments() {
