@@ -5,6 +5,9 @@ public final class AuthorTest {
         wrongAuthors();
         editsAreTheAuthors();
         isNoEdit();
+        theSameAgain();
+        undoLeavesBoth();
+        refusedInAGroup();
         Check.end();
     }
 
@@ -53,5 +56,44 @@ public final class AuthorTest {
         x.author(1);
         Check.is("close() of a group with author() alone", x.close(), 0);
         Check.is("count(2)", x.count(2), 1);
+    }
+
+    /** "Another author (or the same) is at work" */
+    private static void theSameAgain() {
+        for (int author = 0; author < 8; author++) {
+            ChangeTracker x = new ChangeTracker();
+            x.author(author);
+            Check.is("author(" + author + ") again", x.author(author), author);
+            x.track(true);
+            x.insert(0, Check.codes("a"), 0);
+            Check.is("the mark", x.mark(0, 0), 1 << author);
+        }
+    }
+
+    /** "undo() leaves both": the author and tracking are those of now, not those of the group. */
+    private static void undoLeavesBoth() {
+        ChangeTracker x = new ChangeTracker();
+        Check.tracked(x, 1);
+        x.insert(0, Check.codes("a"), 0);
+        x.author(2);
+        x.track(false);
+        x.undo();
+        x.insert(0, Check.codes("b"), 0);
+        Check.is("untracked behind undo()", Check.text(x), "b:0 0/0/0/-1");
+        x.undo();
+        Check.tracked(x, 3);
+        x.redo();
+        x.insert(1, Check.codes("c"), 0);
+        Check.is("tracked behind redo()", Check.text(x), "b:0 0/0/0/-1, c:0 8/0/0/-1");
+    }
+
+    /** "IllegalArgumentException: there is no such author", in an open group, too. */
+    private static void refusedInAGroup() {
+        ChangeTracker x = Check.holding("a");
+        Check.tracked(x, 7);
+        x.open();
+        Check.argument("author(8)", x, () -> x.author(8));
+        x.erase(0, 1);
+        Check.is("erased by 7", x.mark(0, 1), 128);
     }
 }

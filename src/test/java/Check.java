@@ -112,6 +112,27 @@ final class Check {
         return all.append("; author ").append(author).append(on ? " tracks" : "").toString();
     }
 
+    /**
+     * The texts that can be reached by undoing and redoing, with what each step answers and the counts
+     * then. Ends a group that is open, so it stands last in a test.
+     */
+    static String history(ChangeTracker x) {
+        StringBuilder history = new StringBuilder(all(x));
+        if (x.count(6) == 1) {
+            history.append("; close ").append(x.close());
+        }
+        while (x.count(3) > 0) {
+            history.append("; redo ").append(x.redo()).append(": ").append(all(x));
+        }
+        while (x.count(2) > 0) {
+            history.append("; undo ").append(x.undo()).append(": ").append(all(x));
+        }
+        while (x.count(3) > 0) {
+            history.append("; redo ").append(x.redo()).append(": ").append(all(x));
+        }
+        return history.toString();
+    }
+
     private static void thrown(String call, ChangeTracker x, Runnable r, Class<?> want) {
         String before = all(x);
         String got = "nothing";

@@ -7,6 +7,10 @@ public final class CloseTest {
         editsThatCancelOut();
         thrownEditsDontCount();
         forgetsWhenItEnds();
+        zeroIsNone();
+        noneOpenInAnyState();
+        fullHistory();
+        manyEdits();
         Check.end();
     }
 
@@ -87,5 +91,70 @@ public final class CloseTest {
         Check.state("undo()", x, x::undo);
         Check.state("redo()", x, x::redo);
         Check.is("the format stays", x.seen(0, 300, 1), 3);
+    }
+
+    /** "(0: then it is none)" */
+    private static void zeroIsNone() {
+        ChangeTracker x = Check.holding("abc");
+        x.insert(3, Check.codes("d"), 0);
+        x.undo();
+        String before = Check.all(x);
+        x.open();
+        x.erase(3, 0);
+        x.format(0, 3, 0);
+        x.accept(0, 3, 255);
+        x.reject(0, 3, 255);
+        Check.is("close()", x.close(), 0);
+        Check.is("the state", Check.all(x), before);
+    }
+
+    /** "IllegalStateException: none is open.": not before open(), not behind close(), undo(), redo(). */
+    private static void noneOpenInAnyState() {
+        ChangeTracker x = new ChangeTracker();
+        Check.state("close() of a new object", x, x::close);
+        x.insert(0, Check.codes("a"), 0);
+        Check.state("close() behind an edit", x, x::close);
+        x.undo();
+        Check.state("close() behind undo()", x, x::close);
+        x.redo();
+        Check.state("close() behind redo()", x, x::close);
+        x.open();
+        x.erase(0, 1);
+        x.close();
+        Check.state("close() behind close()", x, x::close);
+    }
+
+    /** A group that is none forgets nothing, even where forty can be undone. */
+    private static void fullHistory() {
+        ChangeTracker x = new ChangeTracker();
+        for (int i = 0; i < 40; i++) {
+            x.insert(i, Check.codes("a"), i);
+        }
+        x.open();
+        x.erase(0, 0);
+        Check.is("close() of none", x.close(), 0);
+        Check.is("count(2)", x.count(2), 40);
+        x.open();
+        x.format(0, 40, 99);
+        x.erase(0, 1);
+        Check.is("close() of the 41st", x.close(), 2);
+        Check.is("count(2)", x.count(2), 40);
+        Check.is("count(4)", x.count(4), 39 + 81);
+        Check.is("undo()", x.undo(), 2);
+        Check.is("the text behind it", x.seen(0, 39, 1), 39);
+    }
+
+    /** "how many edits it has that changed the text": as many as an object's calls allow. */
+    private static void manyEdits() {
+        ChangeTracker x = new ChangeTracker();
+        x.open();
+        for (int i = 0; i < 500; i++) {
+            x.insert(i, Check.codes("a"), 0);
+        }
+        Check.is("close()", x.close(), 500);
+        Check.is("count(4)", x.count(4), 500);
+        Check.is("undo()", x.undo(), 500);
+        Check.is("redo()", x.redo(), 500);
+        Check.is("length(0)", x.length(0), 500);
     }
 }

@@ -10,6 +10,11 @@ public final class CountTest {
         everyMarkAnotherOne();
         notBehindTheEnd();
         noSuchWhat();
+        sixHundredDifferentMarks();
+        longestRows();
+        anOpenGroupIsNoneYet();
+        whetherAGroupIsOpen();
+        emptyText();
         Check.end();
     }
 
@@ -132,7 +137,9 @@ public final class CountTest {
         x.erase(0, 4);
         x.track(false);
         x.erase(0, 4);
+        runs(x, 0, 0);
         x.insert(0, Check.codes("e"), 0);
+        runs(x, 0, 0);
         x.insert(1, Check.codes("f"), 0);
         runs(x, 0, 0);
     }
@@ -143,5 +150,83 @@ public final class CountTest {
         for (int what : wrong) {
             Check.is("count(" + what + ")", x.count(what), -1);
         }
+    }
+
+    /** "how many different marks": as many as there are characters. */
+    private static void sixHundredDifferentMarks() {
+        ChangeTracker x = new ChangeTracker();
+        for (int block = 0; block < 75; block++) {
+            x.insert(8 * block, Check.codes("xxxxxxxx"), block);
+        }
+        for (int author = 1; author <= 4; author++) {
+            Check.tracked(x, author);
+            for (int block = 0; block < 75; block++) {
+                x.erase(8 * block + author, 4);
+            }
+        }
+        runs(x, 75 * 7, 7);
+        x.format(0, 600, 255);
+        runs(x, 600, 600);
+    }
+
+    /** "longest rows of characters with the same mark, not plain": whatever their codes and formats. */
+    private static void longestRows() {
+        ChangeTracker x = new ChangeTracker();
+        Check.tracked(x, 1);
+        for (int at = 0; at < 600; at += 8) {
+            x.insert(at, Check.codes("abcdefgh"), at % 256);
+        }
+        runs(x, 1, 1);
+        x.accept(1, 598, 2);
+        runs(x, 2, 1);
+        x.accept(0, 1, 2);
+        runs(x, 1, 1);
+        x.accept(599, 1, 2);
+        runs(x, 0, 0);
+        for (int at = 0; at < 300; at += 2) {
+            x.erase(at, 1);
+        }
+        runs(x, 150, 1);
+        x.author(2);
+        x.erase(0, 300);
+        runs(x, 300, 2);
+    }
+
+    /** "groups that can be undone (2; one that is open is none yet)": nor does it weigh. */
+    private static void anOpenGroupIsNoneYet() {
+        ChangeTracker x = new ChangeTracker();
+        x.open();
+        x.insert(0, Check.codes("abc"), 0);
+        counts(x, "0 0 0 0 1");
+        x.close();
+        counts(x, "1 0 3 0 0");
+        x.open();
+        x.erase(0, 3);
+        counts(x, "1 0 3 0 1");
+        x.close();
+        counts(x, "2 0 6 0 0");
+    }
+
+    /** "whether a group is open (6: 1 or 0)" */
+    private static void whetherAGroupIsOpen() {
+        ChangeTracker x = new ChangeTracker();
+        Check.is("count(6) at first", x.count(6), 0);
+        x.open();
+        Check.is("count(6) behind open()", x.count(6), 1);
+        x.insert(0, Check.codes("a"), 0);
+        Check.is("count(6) behind an edit", x.count(6), 1);
+        Check.state("open()", x, x::open);
+        Check.is("count(6) behind open() again", x.count(6), 1);
+        x.close();
+        Check.is("count(6) behind close()", x.count(6), 0);
+    }
+
+    private static void emptyText() {
+        ChangeTracker x = Check.holding("a");
+        Check.tracked(x, 1);
+        x.erase(0, 1);
+        x.accept(0, 1, 2);
+        runs(x, 0, 0);
+        counts(x, "3 0 4 0 0");
     }
 }

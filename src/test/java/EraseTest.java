@@ -6,6 +6,8 @@ public final class EraseTest {
         tracked();
         rangeOfNone();
         wrongRanges();
+        ofAFullText();
+        rangeOfNoneTracked();
         Check.end();
     }
 
@@ -75,5 +77,30 @@ public final class EraseTest {
         for (int[] r : wrong) {
             Check.index("erase(" + r[0] + ", " + r[1] + ")", x, () -> x.erase(r[0], r[1]));
         }
+    }
+
+    /** "how long the text is": of a full text, tracked and not. */
+    private static void ofAFullText() {
+        ChangeTracker x = Check.holding(600);
+        Check.tracked(x, 3);
+        Check.is("erase(0, 600), tracked", x.erase(0, 600), 600);
+        Check.is("length(1)", x.length(1), 0);
+        x.track(false);
+        Check.is("erase(599, 1)", x.erase(599, 1), 599);
+        Check.is("erase(0, 599)", x.erase(0, 599), 0);
+        Check.is("erase(0, 0) of nothing", x.erase(0, 0), 0);
+    }
+
+    /** "Erases a range (perhaps of none)": tracked, too, it leaves what can be redone. */
+    private static void rangeOfNoneTracked() {
+        ChangeTracker x = Check.holding("abc");
+        Check.tracked(x, 3);
+        x.erase(0, 1);
+        x.undo();
+        for (int at = 0; at <= 3; at++) {
+            Check.is("erase(" + at + ", 0)", x.erase(at, 0), 3);
+        }
+        Check.is("count(3)", x.count(3), 1);
+        Check.is("count(0)", x.count(0), 0);
     }
 }

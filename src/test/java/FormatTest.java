@@ -8,6 +8,8 @@ public final class FormatTest {
         trackedOfOnesOwn();
         countsFormatsNotMarks();
         wrongArguments();
+        ofHowManyItIsAnotherOne();
+        ofNone();
         Check.end();
     }
 
@@ -107,5 +109,29 @@ public final class FormatTest {
         Check.argument("format(0, 3, 256)", x, () -> x.format(0, 3, 256));
         Check.argument("format(0, 0, 256)", x, () -> x.format(0, 0, 256));
         Check.index("no range, no format", x, () -> x.format(0, 4, 256));
+    }
+
+    /** "of how many characters the format is another one then": from none to all 600. */
+    private static void ofHowManyItIsAnotherOne() {
+        ChangeTracker x = Check.holding(600);
+        Check.is("format(0, 600, 255)", x.format(0, 600, 255), 600);
+        Check.is("format(599, 1, 0)", x.format(599, 1, 0), 1);
+        Check.is("format(0, 600, 0)", x.format(0, 600, 0), 599);
+        Check.is("format(0, 600, 0) again", x.format(0, 600, 0), 0);
+        Check.tracked(x, 2);
+        Check.is("format(0, 600, 1), tracked", x.format(0, 600, 1), 600);
+        Check.is("format(300, 300, 0), back to the old", x.format(300, 300, 0), 300);
+        Check.is("count(0)", x.count(0), 1);
+    }
+
+    /** A range of none has no character whose format could be another one. */
+    private static void ofNone() {
+        ChangeTracker x = Check.holding("abc");
+        String before = Check.all(x);
+        for (int at = 0; at <= 3; at++) {
+            Check.is("format(" + at + ", 0, 9)", x.format(at, 0, 9), 0);
+        }
+        Check.is("the state", Check.all(x), before);
+        Check.is("format(0, 0, 0) of a new object", new ChangeTracker().format(0, 0, 0), 0);
     }
 }

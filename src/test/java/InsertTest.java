@@ -8,6 +8,11 @@ public final class InsertTest {
         wrongArguments();
         notMoreThanSixHundred();
         orderOfExceptions();
+        upToEachZeroByte();
+        upToEachFullText();
+        zeroByteWhereThereIsLittleRoom();
+        lowestByteZero();
+        fullOfMarksAndRoomByUndo();
         Check.end();
     }
 
@@ -82,5 +87,66 @@ public final class InsertTest {
         Check.index("no place, no format, no code", x, () -> x.insert(601, 0, 256));
         Check.argument("no format, too long", x, () -> x.insert(0, 65, 256));
         Check.argument("no code, too long", x, () -> x.insert(0, 0, 0));
+    }
+
+    /** "up to eight characters .. the lowest first, up to the first zero byte": whatever lies behind it. */
+    private static void upToEachZeroByte() {
+        String letters = "abcdefgh";
+        for (int n = 1; n <= 8; n++) {
+            long behind = n >= 7 ? 0 : -1L << (8 * (n + 1));
+            ChangeTracker x = new ChangeTracker();
+            Check.is("insert of " + n, x.insert(0, Check.codes(letters.substring(0, n)) | behind, 0), n);
+            Check.is("the text", Check.view(x, 0), letters.substring(0, n));
+        }
+    }
+
+    /** "IllegalStateException: there would be more than 600": for each room that is left. */
+    private static void upToEachFullText() {
+        for (int room = 0; room <= 8; room++) {
+            ChangeTracker x = Check.holding(600 - room);
+            if (room < 8) {
+                long tooMany = Check.codes("abcdefgh".substring(0, room + 1));
+                Check.state("insert of one more than " + room, x, () -> x.insert(0, tooMany, 0));
+            }
+            if (room > 0) {
+                long justEnough = Check.codes("abcdefgh".substring(0, room));
+                Check.is("insert of just " + room, x.insert(300, justEnough, 0), 600);
+                Check.is("the first of them", x.seen(0, 300, 0), 'a');
+                Check.is("what stood there", x.seen(0, 300 + room, 0), 'x');
+            }
+        }
+    }
+
+    /** The same: bytes behind a zero byte are no characters, and need no room. */
+    private static void zeroByteWhereThereIsLittleRoom() {
+        ChangeTracker x = Check.holding(599);
+        Check.is("insert of one and bytes behind a zero", x.insert(599, 0xFFFFFFFFFFFF0041L, 0), 600);
+        Check.state("the same in a full text", x, () -> x.insert(599, 0xFFFFFFFFFFFF0041L, 0));
+    }
+
+    /** "IllegalArgumentException: also if the lowest byte is 0" */
+    private static void lowestByteZero() {
+        ChangeTracker x = Check.holding("abc");
+        for (int i = 1; i < 8; i++) {
+            long codes = 65L << (8 * i);
+            Check.argument("a code in byte " + i + " alone", x, () -> x.insert(1, codes, 0));
+        }
+        Check.argument("all bytes but the lowest", x, () -> x.insert(3, -256L, 255));
+        Check.is("the lowest byte 1", x.insert(3, 1L, 255), 4);
+        Check.is("the lowest byte 255", x.insert(4, 255L, 255), 5);
+    }
+
+    /** The text is full of what is in it now: undo() makes room, redo() takes it. */
+    private static void fullOfMarksAndRoomByUndo() {
+        ChangeTracker x = Check.holding(599);
+        Check.tracked(x, 1);
+        x.insert(0, Check.codes("a"), 0);
+        Check.state("insert into a full text", x, () -> x.insert(0, Check.codes("b"), 0));
+        x.undo();
+        Check.state("insert of two into room for one", x, () -> x.insert(0, Check.codes("bc"), 0));
+        x.redo();
+        Check.state("insert behind redo()", x, () -> x.insert(0, Check.codes("b"), 0));
+        Check.is("erase of one's own", x.erase(0, 1), 599);
+        Check.is("insert", x.insert(0, Check.codes("b"), 0), 600);
     }
 }

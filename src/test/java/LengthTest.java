@@ -3,6 +3,7 @@ public final class LengthTest {
     public static void main(String[] args) {
         views();
         noSuchView();
+        emptyAndFull();
         Check.end();
     }
 
@@ -33,5 +34,25 @@ public final class LengthTest {
         for (int view : wrong) {
             Check.is("length(" + view + ")", x.length(view), -1);
         }
+    }
+
+    /** "How many characters a view has": from none to 600. */
+    private static void emptyAndFull() {
+        ChangeTracker x = new ChangeTracker();
+        lengths(x, 0, 0, 0);
+        Check.tracked(x, 5);
+        for (int at = 0; at < 600; at += 8) {
+            x.insert(at, Check.codes("abcdefgh"), 0);
+        }
+        lengths(x, 600, 600, 0);
+        x.author(6);
+        x.erase(0, 600);
+        lengths(x, 600, 0, 0);
+        x.accept(0, 600, 32);
+        lengths(x, 600, 0, 600);
+        x.accept(0, 600, 64);
+        lengths(x, 0, 0, 0);
+        Check.is("length(3) of an empty text", x.length(3), -1);
+        Check.is("length(-1) of an empty text", x.length(-1), -1);
     }
 }

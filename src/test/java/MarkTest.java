@@ -4,6 +4,8 @@ public final class MarkTest {
         marks();
         oldFormatZero();
         wrongArguments();
+        lastPlace();
+        emptyText();
         Check.end();
     }
 
@@ -44,6 +46,26 @@ public final class MarkTest {
         int[] whats = {-1, 4, Integer.MIN_VALUE, Integer.MAX_VALUE};
         for (int what : whats) {
             Check.argument("mark(2, " + what + ")", x, () -> x.mark(2, what));
+        }
+    }
+
+    /** "there is no such place": the last one is the length less 1. */
+    private static void lastPlace() {
+        ChangeTracker x = Check.holding(599);
+        Check.tracked(x, 7);
+        x.insert(599, Check.codes("a"), 0);
+        Check.is("mark(599, 0)", x.mark(599, 0), 128);
+        Check.is("mark(0, 0)", x.mark(0, 0), 0);
+        Check.index("mark(600, 0)", x, () -> x.mark(600, 0));
+        x.erase(599, 1);
+        Check.index("mark(599, 0) when it is gone", x, () -> x.mark(599, 0));
+    }
+
+    private static void emptyText() {
+        ChangeTracker x = new ChangeTracker();
+        for (int w = -1; w <= 4; w++) {
+            int what = w;
+            Check.index("mark(0, " + what + ") of a new object", x, () -> x.mark(0, what));
         }
     }
 }

@@ -5,6 +5,9 @@ public final class NextTest {
         authorZero();
         notBehindTheEnd();
         wrongArguments();
+        fromTheLengthOn();
+        firstAndLastPlace();
+        setsFrom1To255();
         Check.end();
     }
 
@@ -43,9 +46,11 @@ public final class NextTest {
         x.erase(0, 4);
         x.track(false);
         x.erase(0, 4);
+        Check.is("next(0, 255) of none", x.next(0, 255), -1);
         x.insert(0, Check.codes("e"), 0);
+        Check.is("next(0, 255) of one plain one", x.next(0, 255), -1);
         x.insert(1, Check.codes("f"), 0);
-        Check.is("next(0, 255) of plain ones", x.next(0, 255), -1);
+        Check.is("next(0, 255) of two plain ones", x.next(0, 255), -1);
     }
 
     private static void wrongArguments() {
@@ -59,6 +64,49 @@ public final class NextTest {
         for (int authors : sets) {
             Check.argument("next(0, " + authors + ")", x, () -> x.next(0, authors));
             Check.argument("next(3, " + authors + ")", x, () -> x.next(3, authors));
+        }
+    }
+
+    /** "from at (which may be the length) on": of an empty text, of a full one. */
+    private static void fromTheLengthOn() {
+        ChangeTracker x = new ChangeTracker();
+        Check.is("next(0, 255) of a new object", x.next(0, 255), -1);
+        Check.index("next(1, 255) of a new object", x, () -> x.next(1, 255));
+        Check.index("next(-1, 255) of a new object", x, () -> x.next(-1, 255));
+        ChangeTracker y = Check.holding(600);
+        Check.tracked(y, 4);
+        y.erase(0, 600);
+        Check.is("next(600, 16)", y.next(600, 16), -1);
+        Check.is("next(599, 16)", y.next(599, 16), 599);
+        Check.index("next(601, 16)", y, () -> y.next(601, 16));
+    }
+
+    /** "The first place": the first of all, and the last of all. */
+    private static void firstAndLastPlace() {
+        ChangeTracker x = Check.holding(600);
+        Check.is("next(0, 255)", x.next(0, 255), -1);
+        Check.tracked(x, 0);
+        x.erase(599, 1);
+        Check.is("next(0, 1)", x.next(0, 1), 599);
+        Check.is("next(599, 1)", x.next(599, 1), 599);
+        x.format(0, 1, 1);
+        Check.is("next(0, 1)", x.next(0, 1), 0);
+        Check.is("next(1, 1)", x.next(1, 1), 599);
+    }
+
+    /** "one of a set of authors inserted, erased or formatted", with every set that there is. */
+    private static void setsFrom1To255() {
+        ChangeTracker x = Check.holding("abcdefgh");
+        for (int author = 0; author < 8; author++) {
+            Check.tracked(x, author);
+            if (author % 2 == 0) {
+                x.erase(author, 1);
+            } else {
+                x.format(author, 1, 9);
+            }
+        }
+        for (int set = 1; set <= 255; set++) {
+            Check.is("next(0, " + set + ")", x.next(0, set), Integer.numberOfTrailingZeros(set));
         }
     }
 }

@@ -6,6 +6,8 @@ public final class RedoTest {
         wrongStates();
         anEditEndsIt();
         whatChangesNothingDoesNot();
+        aGroupIsOpen();
+        noneCanBeRedone();
         Check.end();
     }
 
@@ -90,5 +92,39 @@ public final class RedoTest {
         Check.is("count(3)", x.count(3), 1);
         Check.is("redo()", x.redo(), 1);
         Check.is("the text", Check.text(x), "a:0 0/0/0/-1, b:0 0/0/0/-1, c:0 0/0/0/-1");
+    }
+
+    /** "IllegalStateException: a group is open": with none to redo, and with some. */
+    private static void aGroupIsOpen() {
+        ChangeTracker x = new ChangeTracker();
+        x.open();
+        Check.state("redo() with none to redo", x, x::redo);
+        x.close();
+        x.insert(0, Check.codes("a"), 0);
+        x.undo();
+        x.open();
+        Check.state("redo() with one to redo", x, x::redo);
+        x.erase(0, 0);
+        Check.state("redo() behind an edit that changes nothing", x, x::redo);
+        x.close();
+        Check.is("redo()", x.redo(), 1);
+        Check.is("length(0)", x.length(0), 1);
+    }
+
+    /** "or none can be redone": at first, behind an edit, when all are redone. */
+    private static void noneCanBeRedone() {
+        ChangeTracker x = new ChangeTracker();
+        Check.state("redo() of a new object", x, x::redo);
+        x.insert(0, Check.codes("a"), 0);
+        Check.state("redo() behind an edit", x, x::redo);
+        x.undo();
+        Check.is("redo()", x.redo(), 1);
+        Check.state("redo() behind redo()", x, x::redo);
+        x.undo();
+        x.open();
+        x.insert(0, Check.codes("b"), 0);
+        x.erase(0, 1);
+        x.close();
+        Check.state("redo() behind a group", x, x::redo);
     }
 }

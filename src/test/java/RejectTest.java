@@ -8,6 +8,10 @@ public final class RejectTest {
         rangeAlone();
         authorZero();
         wrongArguments();
+        wentOrHaveAnotherMark();
+        setsFrom1To255();
+        ofNone();
+        ofAFullText();
         Check.end();
     }
 
@@ -92,5 +96,64 @@ public final class RejectTest {
         Check.argument("reject(0, 3, 256)", x, () -> x.reject(0, 3, 256));
         Check.argument("reject(0, 0, -1)", x, () -> x.reject(0, 0, -1));
         Check.index("no range, no set", x, () -> x.reject(4, 0, 0));
+    }
+
+    /** "how many characters went or have another mark" */
+    private static void wentOrHaveAnotherMark() {
+        ChangeTracker x = Check.holding("abd");
+        Check.tracked(x, 1);
+        x.erase(0, 1);
+        x.format(1, 1, 9);
+        x.insert(2, Check.codes("c"), 0);
+        x.author(3);
+        x.insert(4, Check.codes("e"), 0);
+        Check.is("c goes, a and b have another mark, d and e stay", x.reject(0, 5, 2), 3);
+        Check.is("the text", Check.text(x), "a:0 0/0/0/-1, b:0 0/0/0/-1, d:0 0/0/0/-1, e:0 8/0/0/-1");
+        Check.is("reject() again", x.reject(0, 4, 2), 0);
+    }
+
+    /** "there is no such .. set (1 .. 255)" */
+    private static void setsFrom1To255() {
+        for (int set = 1; set <= 255; set++) {
+            ChangeTracker x = new ChangeTracker();
+            Check.tracked(x, 0);
+            x.insert(0, Check.codes("a"), 0);
+            x.author(7);
+            x.insert(1, Check.codes("b"), 0);
+            Check.is("reject(0, 2, " + set + ")", x.reject(0, 2, set), (set & 1) + (set >> 7));
+        }
+        ChangeTracker x = Check.holding("ab");
+        Check.tracked(x, 0);
+        x.erase(0, 2);
+        int[] wrong = {0, -1, -255, 256, 257, 511, 512, Integer.MIN_VALUE, Integer.MAX_VALUE};
+        for (int set : wrong) {
+            Check.argument("reject(0, 2, " + set + ")", x, () -> x.reject(0, 2, set));
+            Check.argument("reject(2, 0, " + set + ")", x, () -> x.reject(2, 0, set));
+        }
+    }
+
+    /** A range of none has no character that could go. */
+    private static void ofNone() {
+        ChangeTracker x = Check.holding("ab");
+        Check.tracked(x, 0);
+        x.erase(0, 2);
+        String before = Check.all(x);
+        for (int at = 0; at <= 2; at++) {
+            Check.is("reject(" + at + ", 0, 255)", x.reject(at, 0, 255), 0);
+        }
+        Check.is("the state", Check.all(x), before);
+        Check.is("reject(0, 0, 1) of a new object", new ChangeTracker().reject(0, 0, 1), 0);
+    }
+
+    /** All 600 have another mark, or go. */
+    private static void ofAFullText() {
+        ChangeTracker x = Check.holding(600);
+        Check.is("reject(0, 600, 255) of plain ones", x.reject(0, 600, 255), 0);
+        Check.tracked(x, 6);
+        x.format(0, 600, 1);
+        Check.is("reject(0, 600, 64) of formatted ones", x.reject(0, 600, 64), 600);
+        x.erase(0, 600);
+        Check.is("reject(0, 600, 64) of erased ones", x.reject(0, 600, 64), 600);
+        Check.is("length(0)", x.length(0), 600);
     }
 }

@@ -6,6 +6,8 @@ public final class SeenTest {
         places();
         asIfAllAccepted();
         wrongArguments();
+        otherWhats();
+        lastOfEachView();
         Check.end();
     }
 
@@ -79,5 +81,33 @@ public final class SeenTest {
         Check.argument("seen(-1, 0, 0)", x, () -> x.seen(-1, 0, 0));
         Check.argument("no view, no place", x, () -> x.seen(3, 99, 0));
         Check.argument("no what, no place", x, () -> x.seen(0, 99, 3));
+    }
+
+    /** "IllegalArgumentException: also for another what." */
+    private static void otherWhats() {
+        ChangeTracker x = marked();
+        int[] wrong = {-1, 3, 4, 256, Integer.MIN_VALUE, Integer.MAX_VALUE};
+        for (int what : wrong) {
+            for (int v = 0; v < 3; v++) {
+                int view = v;
+                Check.argument("seen(" + view + ", 0, " + what + ")", x, () -> x.seen(view, 0, what));
+                Check.argument("seen(" + view + ", 600, " + what + ")", x, () -> x.seen(view, 600, what));
+            }
+        }
+        ChangeTracker y = new ChangeTracker();
+        Check.argument("seen(0, 0, 3) of a new object", y, () -> y.seen(0, 0, 3));
+    }
+
+    /** "Of character i of a view": there is one up to the view's length less 1, not the text's. */
+    private static void lastOfEachView() {
+        ChangeTracker x = marked();
+        Check.is("the last of view 0", x.seen(0, 5, 0), 'f');
+        Check.is("the last of view 1", x.seen(1, 3, 0), 'f');
+        Check.is("the last of view 2", x.seen(2, 2, 0), 'c');
+        Check.index("seen(0, 6, 0)", x, () -> x.seen(0, 6, 0));
+        Check.index("seen(1, 4, 0)", x, () -> x.seen(1, 4, 0));
+        Check.index("seen(1, 5, 0)", x, () -> x.seen(1, 5, 0));
+        Check.index("seen(2, 3, 0)", x, () -> x.seen(2, 3, 0));
+        Check.index("seen(2, 5, 0)", x, () -> x.seen(2, 5, 0));
     }
 }

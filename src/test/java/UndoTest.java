@@ -7,6 +7,8 @@ public final class UndoTest {
         fortyGroups();
         weightOfThreeThousand();
         asFewAsNeedBe();
+        aGroupIsOpen();
+        noneCanBeUndone();
         Check.end();
     }
 
@@ -114,5 +116,41 @@ public final class UndoTest {
         Check.is("the format", x.seen(0, 0, 1), 1);
         Check.is("count(5)", x.count(5), 1802);
         Check.state("undo() of a forgotten one", x, x::undo);
+    }
+
+    /** "IllegalStateException: a group is open": with none to undo, with some, with an edit of its own. */
+    private static void aGroupIsOpen() {
+        ChangeTracker x = new ChangeTracker();
+        x.open();
+        Check.state("undo() with none to undo", x, x::undo);
+        x.insert(0, Check.codes("a"), 0);
+        Check.state("undo() of the open group's edit", x, x::undo);
+        x.close();
+        x.open();
+        Check.state("undo() with one to undo", x, x::undo);
+        x.close();
+        Check.is("undo()", x.undo(), 1);
+        Check.is("length(0)", x.length(0), 0);
+    }
+
+    /** "or none can be undone": at first, when all are undone, when all are forgotten. */
+    private static void noneCanBeUndone() {
+        ChangeTracker x = new ChangeTracker();
+        Check.state("undo() of a new object", x, x::undo);
+        x.open();
+        x.close();
+        Check.state("undo() behind a group that is none", x, x::undo);
+        x.insert(0, Check.codes("a"), 0);
+        x.undo();
+        Check.state("undo() behind the only undo()", x, x::undo);
+        x.redo();
+        Check.is("undo() behind redo()", x.undo(), 1);
+        ChangeTracker y = Check.holding(600);
+        y.open();
+        y.format(0, 600, 1);
+        y.format(0, 600, 2);
+        y.format(0, 600, 3);
+        y.close();
+        Check.state("undo() when all are forgotten", y, y::undo);
     }
 }
