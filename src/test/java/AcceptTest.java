@@ -16,7 +16,7 @@ public final class AcceptTest {
     }
 
     private static void erased() {
-        ChangeTracker x = Check.holding("ab");
+        Subject x = Check.holding("ab");
         Check.tracked(x, 1);
         x.erase(0, 1);
         x.author(2);
@@ -29,7 +29,7 @@ public final class AcceptTest {
     }
 
     private static void inserted() {
-        ChangeTracker x = Check.holding("a");
+        Subject x = Check.holding("a");
         Check.tracked(x, 3);
         x.insert(1, Check.codes("bc"), 5);
         x.author(4);
@@ -40,7 +40,7 @@ public final class AcceptTest {
     }
 
     private static void formatted() {
-        ChangeTracker x = Check.holding("a");
+        Subject x = Check.holding("a");
         Check.tracked(x, 5);
         x.format(0, 1, 9);
         x.author(6);
@@ -52,7 +52,7 @@ public final class AcceptTest {
     }
 
     private static void severalAtOnce() {
-        ChangeTracker x = new ChangeTracker();
+        Subject x = new Subject();
         Check.tracked(x, 1);
         x.insert(0, Check.codes("abcd"), 5);
         x.author(2);
@@ -68,7 +68,7 @@ public final class AcceptTest {
     }
 
     private static void rangeAlone() {
-        ChangeTracker x = new ChangeTracker();
+        Subject x = new Subject();
         Check.tracked(x, 1);
         x.insert(0, Check.codes("abcd"), 0);
         Check.is("accept(1, 2, 2)", x.accept(1, 2, 2), 2);
@@ -79,7 +79,7 @@ public final class AcceptTest {
     }
 
     private static void authorZero() {
-        ChangeTracker x = Check.holding("ab");
+        Subject x = Check.holding("ab");
         Check.tracked(x, 0);
         x.erase(0, 1);
         Check.is("accept(0, 2, 254)", x.accept(0, 2, 254), 0);
@@ -88,7 +88,7 @@ public final class AcceptTest {
     }
 
     private static void wrongArguments() {
-        ChangeTracker x = Check.holding("abc");
+        Subject x = Check.holding("abc");
         Check.index("accept(0, 4, 1)", x, () -> x.accept(0, 4, 1));
         Check.index("accept(-1, 1, 1)", x, () -> x.accept(-1, 1, 1));
         Check.index("accept(1, -1, 1)", x, () -> x.accept(1, -1, 1));
@@ -101,7 +101,7 @@ public final class AcceptTest {
 
     /** "how many characters went or have another mark" */
     private static void wentOrHaveAnotherMark() {
-        ChangeTracker x = Check.holding("abd");
+        Subject x = Check.holding("abd");
         Check.tracked(x, 1);
         x.erase(0, 1);
         x.format(1, 1, 9);
@@ -116,14 +116,14 @@ public final class AcceptTest {
     /** "there is no such .. set (1 .. 255)" */
     private static void setsFrom1To255() {
         for (int set = 1; set <= 255; set++) {
-            ChangeTracker x = new ChangeTracker();
+            Subject x = new Subject();
             Check.tracked(x, 0);
             x.insert(0, Check.codes("a"), 0);
             x.author(7);
             x.insert(1, Check.codes("b"), 0);
             Check.is("accept(0, 2, " + set + ")", x.accept(0, 2, set), (set & 1) + (set >> 7));
         }
-        ChangeTracker x = Check.holding("ab");
+        Subject x = Check.holding("ab");
         Check.tracked(x, 0);
         x.erase(0, 2);
         int[] wrong = {0, -1, -255, 256, 257, 511, 512, Integer.MIN_VALUE, Integer.MAX_VALUE};
@@ -135,7 +135,7 @@ public final class AcceptTest {
 
     /** A range of none has no character that could go. */
     private static void ofNone() {
-        ChangeTracker x = Check.holding("ab");
+        Subject x = Check.holding("ab");
         Check.tracked(x, 0);
         x.erase(0, 2);
         String before = Check.all(x);
@@ -143,12 +143,12 @@ public final class AcceptTest {
             Check.is("accept(" + at + ", 0, 255)", x.accept(at, 0, 255), 0);
         }
         Check.is("the state", Check.all(x), before);
-        Check.is("accept(0, 0, 1) of a new object", new ChangeTracker().accept(0, 0, 1), 0);
+        Check.is("accept(0, 0, 1) of a new object", new Subject().accept(0, 0, 1), 0);
     }
 
     /** All 600 have another mark, or go. */
     private static void ofAFullText() {
-        ChangeTracker x = Check.holding(600);
+        Subject x = Check.holding(600);
         Check.is("accept(0, 600, 255) of plain ones", x.accept(0, 600, 255), 0);
         Check.tracked(x, 6);
         x.format(0, 600, 1);

@@ -12,7 +12,7 @@ public final class AuthorTest {
     }
 
     private static void answersWhoWasBefore() {
-        ChangeTracker x = new ChangeTracker();
+        Subject x = new Subject();
         int before = 0;
         for (int author = 7; author >= 0; author--) {
             Check.is("author(" + author + ")", x.author(author), before);
@@ -22,7 +22,7 @@ public final class AuthorTest {
     }
 
     private static void wrongAuthors() {
-        ChangeTracker x = new ChangeTracker();
+        Subject x = new Subject();
         x.author(6);
         int[] wrong = {-1, 8, 9, 255, Integer.MIN_VALUE, Integer.MAX_VALUE};
         for (int author : wrong) {
@@ -33,7 +33,7 @@ public final class AuthorTest {
 
     private static void editsAreTheAuthors() {
         for (int author = 0; author < 8; author++) {
-            ChangeTracker x = Check.holding("ab");
+            Subject x = Check.holding("ab");
             Check.tracked(x, author);
             x.insert(0, Check.codes("n"), 0);
             x.erase(1, 1);
@@ -45,7 +45,7 @@ public final class AuthorTest {
     }
 
     private static void isNoEdit() {
-        ChangeTracker x = Check.holding("ab");
+        Subject x = Check.holding("ab");
         x.author(4);
         x.undo();
         Check.is("author() behind undo()", x.author(5), 4);
@@ -61,7 +61,7 @@ public final class AuthorTest {
     /** "Another author (or the same) is at work" */
     private static void theSameAgain() {
         for (int author = 0; author < 8; author++) {
-            ChangeTracker x = new ChangeTracker();
+            Subject x = new Subject();
             x.author(author);
             Check.is("author(" + author + ") again", x.author(author), author);
             x.track(true);
@@ -72,7 +72,7 @@ public final class AuthorTest {
 
     /** "undo() leaves both": the author and tracking are those of now, not those of the group. */
     private static void undoLeavesBoth() {
-        ChangeTracker x = new ChangeTracker();
+        Subject x = new Subject();
         Check.tracked(x, 1);
         x.insert(0, Check.codes("a"), 0);
         x.author(2);
@@ -89,7 +89,7 @@ public final class AuthorTest {
 
     /** "IllegalArgumentException: there is no such author", in an open group, too. */
     private static void refusedInAGroup() {
-        ChangeTracker x = Check.holding("a");
+        Subject x = Check.holding("a");
         Check.tracked(x, 7);
         x.open();
         Check.argument("author(8)", x, () -> x.author(8));

@@ -24,17 +24,17 @@ final class Check {
     }
 
     /** The call throws IndexOutOfBoundsException itself, and changes nothing. */
-    static void index(String call, ChangeTracker x, Runnable r) {
+    static void index(String call, Subject x, Runnable r) {
         thrown(call, x, r, IndexOutOfBoundsException.class);
     }
 
     /** The call throws IllegalArgumentException itself, and changes nothing. */
-    static void argument(String call, ChangeTracker x, Runnable r) {
+    static void argument(String call, Subject x, Runnable r) {
         thrown(call, x, r, IllegalArgumentException.class);
     }
 
     /** The call throws IllegalStateException itself, and changes nothing. */
-    static void state(String call, ChangeTracker x, Runnable r) {
+    static void state(String call, Subject x, Runnable r) {
         thrown(call, x, r, IllegalStateException.class);
     }
 
@@ -47,8 +47,8 @@ final class Check {
     }
 
     /** A new object with a plain text of format 0. */
-    static ChangeTracker holding(String text) {
-        ChangeTracker x = new ChangeTracker();
+    static Subject holding(String text) {
+        Subject x = new Subject();
         for (int i = 0; i < text.length(); i += 8) {
             x.insert(i, codes(text.substring(i, Math.min(i + 8, text.length()))), 0);
         }
@@ -56,7 +56,7 @@ final class Check {
     }
 
     /** A new object with n plain characters of format 0. */
-    static ChangeTracker holding(int n) {
+    static Subject holding(int n) {
         return holding("x".repeat(n));
     }
 
@@ -70,53 +70,51 @@ final class Check {
     }
 
     /** Lets an author be at work, with tracking on. */
-    static void tracked(ChangeTracker x, int author) {
+    static void tracked(Subject x, int author) {
         x.author(author);
         x.track(true);
     }
 
     /** The characters of a view. */
-    static String view(ChangeTracker x, int view) {
+    static String view(Subject x, int view) {
         StringBuilder text = new StringBuilder();
-        for (int i = 0; i < x.length(view); i++) {
+        int n = x.length(view);
+        for (int i = 0; i < n; i++) {
             text.append((char) x.seen(view, i, 0));
         }
         return text.toString();
     }
 
     /** One character: code:format inserted/erased/formatted/old. */
-    static String letter(ChangeTracker x, int at) {
+    static String letter(Subject x, int at) {
         return (char) x.seen(0, at, 0) + ":" + x.seen(0, at, 1) + " " + x.mark(at, 0) + "/" + x.mark(at, 1)
             + "/" + x.mark(at, 2) + "/" + x.mark(at, 3);
     }
 
     /** All characters with formats and marks. */
-    static String text(ChangeTracker x) {
+    static String text(Subject x) {
         StringBuilder text = new StringBuilder();
-        for (int at = 0; at < x.length(0); at++) {
+        int n = x.length(0);
+        for (int at = 0; at < n; at++) {
             text.append(at == 0 ? "" : ", ").append(letter(x, at));
         }
         return text.toString();
     }
 
     /** All that can be seen of an object. */
-    static String all(ChangeTracker x) {
+    static String all(Subject x) {
         StringBuilder all = new StringBuilder(text(x));
         for (int what = 0; what <= 6; what++) {
             all.append("; ").append(x.count(what));
         }
-        int author = x.author(0);
-        x.author(author);
-        boolean on = x.track(false);
-        x.track(on);
-        return all.append("; author ").append(author).append(on ? " tracks" : "").toString();
+        return all.append("; author ").append(x.worker()).append(x.isTracking() ? " tracks" : "").toString();
     }
 
     /**
      * The texts that can be reached by undoing and redoing, with what each step answers and the counts
      * then. Ends a group that is open, so it stands last in a test.
      */
-    static String history(ChangeTracker x) {
+    static String history(Subject x) {
         StringBuilder history = new StringBuilder(all(x));
         if (x.count(6) == 1) {
             history.append("; close ").append(x.close());
@@ -133,7 +131,7 @@ final class Check {
         return history.toString();
     }
 
-    private static void thrown(String call, ChangeTracker x, Runnable r, Class<?> want) {
+    private static void thrown(String call, Subject x, Runnable r, Class<?> want) {
         String before = all(x);
         String got = "nothing";
         try {

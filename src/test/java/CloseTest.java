@@ -15,7 +15,7 @@ public final class CloseTest {
     }
 
     private static void noneIsOpen() {
-        ChangeTracker x = Check.holding("a");
+        Subject x = Check.holding("a");
         Check.state("close()", x, x::close);
         x.open();
         x.close();
@@ -24,7 +24,7 @@ public final class CloseTest {
     }
 
     private static void countsEditsThatChange() {
-        ChangeTracker x = Check.holding("abc");
+        Subject x = Check.holding("abc");
         x.open();
         x.insert(0, Check.codes("n"), 0);
         x.format(0, 4, 0);
@@ -41,7 +41,7 @@ public final class CloseTest {
     }
 
     private static void aGroupThatIsNone() {
-        ChangeTracker x = Check.holding("abc");
+        Subject x = Check.holding("abc");
         x.open();
         Check.is("close() at once", x.close(), 0);
         x.open();
@@ -58,7 +58,7 @@ public final class CloseTest {
     }
 
     private static void editsThatCancelOut() {
-        ChangeTracker x = new ChangeTracker();
+        Subject x = new Subject();
         x.open();
         x.insert(0, Check.codes("ab"), 0);
         x.erase(0, 2);
@@ -70,7 +70,7 @@ public final class CloseTest {
     }
 
     private static void thrownEditsDontCount() {
-        ChangeTracker x = Check.holding("abc");
+        Subject x = Check.holding("abc");
         x.open();
         Check.index("erase(0, 4)", x, () -> x.erase(0, 4));
         Check.argument("insert(0, 0, 0)", x, () -> x.insert(0, 0, 0));
@@ -78,7 +78,7 @@ public final class CloseTest {
     }
 
     private static void forgetsWhenItEnds() {
-        ChangeTracker x = Check.holding(600);
+        Subject x = Check.holding(600);
         x.open();
         x.format(0, 600, 1);
         x.format(0, 600, 2);
@@ -95,7 +95,7 @@ public final class CloseTest {
 
     /** "(0: then it is none)" */
     private static void zeroIsNone() {
-        ChangeTracker x = Check.holding("abc");
+        Subject x = Check.holding("abc");
         x.insert(3, Check.codes("d"), 0);
         x.undo();
         String before = Check.all(x);
@@ -110,7 +110,7 @@ public final class CloseTest {
 
     /** "IllegalStateException: none is open.": not before open(), not behind close(), undo(), redo(). */
     private static void noneOpenInAnyState() {
-        ChangeTracker x = new ChangeTracker();
+        Subject x = new Subject();
         Check.state("close() of a new object", x, x::close);
         x.insert(0, Check.codes("a"), 0);
         Check.state("close() behind an edit", x, x::close);
@@ -126,7 +126,7 @@ public final class CloseTest {
 
     /** A group that is none forgets nothing, even where forty can be undone. */
     private static void fullHistory() {
-        ChangeTracker x = new ChangeTracker();
+        Subject x = new Subject();
         for (int i = 0; i < 40; i++) {
             x.insert(i, Check.codes("a"), i);
         }
@@ -146,7 +146,7 @@ public final class CloseTest {
 
     /** "how many edits it has that changed the text": as many as an object's calls allow. */
     private static void manyEdits() {
-        ChangeTracker x = new ChangeTracker();
+        Subject x = new Subject();
         x.open();
         for (int i = 0; i < 500; i++) {
             x.insert(i, Check.codes("a"), 0);

@@ -19,7 +19,7 @@ public final class CountTest {
     }
 
     private static void runsAndMarks() {
-        ChangeTracker x = Check.holding("abcdefgh");
+        Subject x = Check.holding("abcdefgh");
         runs(x, 0, 0);
         Check.tracked(x, 1);
         x.erase(0, 2);
@@ -36,7 +36,7 @@ public final class CountTest {
     }
 
     private static void oldFormatsAreOfTheMark() {
-        ChangeTracker x = Check.holding("ab");
+        Subject x = Check.holding("ab");
         x.format(1, 1, 1);
         Check.tracked(x, 1);
         x.format(0, 2, 5);
@@ -44,20 +44,20 @@ public final class CountTest {
     }
 
     private static void formatsAreNotOfTheMark() {
-        ChangeTracker x = new ChangeTracker();
+        Subject x = new Subject();
         Check.tracked(x, 1);
         x.insert(0, Check.codes("a"), 1);
         x.insert(1, Check.codes("b"), 2);
         runs(x, 1, 1);
     }
 
-    private static void runs(ChangeTracker x, int runs, int marks) {
+    private static void runs(Subject x, int runs, int marks) {
         Check.is("count(0)", x.count(0), runs);
         Check.is("count(1)", x.count(1), marks);
     }
 
     private static void groups() {
-        ChangeTracker x = Check.holding("abc");
+        Subject x = Check.holding("abc");
         x.insert(0, Check.codes("de"), 0);
         x.erase(0, 1);
         counts(x, "3 0 6 0 0");
@@ -73,13 +73,13 @@ public final class CountTest {
         counts(x, "2 0 9 0 0");
     }
 
-    private static void counts(ChangeTracker x, String want) {
+    private static void counts(Subject x, String want) {
         Check.is("count(2) to count(6)", x.count(2) + " " + x.count(3) + " " + x.count(4) + " " + x.count(5)
             + " " + x.count(6), want);
     }
 
     private static void weightOfEachEdit() {
-        ChangeTracker x = Check.holding("abcdef");
+        Subject x = Check.holding("abcdef");
         Check.tracked(x, 1);
         x.erase(1, 3);
         Check.is("three erased, tracked", x.count(4), 6 + 6);
@@ -95,7 +95,7 @@ public final class CountTest {
     }
 
     private static void weightIsTrimmed() {
-        ChangeTracker x = Check.holding("aaa");
+        Subject x = Check.holding("aaa");
         x.insert(1, Check.codes("a"), 0);
         Check.is("one among its like", x.count(4), 3 + 1);
         x = Check.holding("abab");
@@ -120,7 +120,7 @@ public final class CountTest {
     }
 
     private static void everyMarkAnotherOne() {
-        ChangeTracker x = Check.holding(250);
+        Subject x = Check.holding(250);
         for (int at = 0; at < 250; at++) {
             x.format(at, 1, at);
         }
@@ -132,7 +132,7 @@ public final class CountTest {
     }
 
     private static void notBehindTheEnd() {
-        ChangeTracker x = Check.holding("abcd");
+        Subject x = Check.holding("abcd");
         Check.tracked(x, 1);
         x.erase(0, 4);
         x.track(false);
@@ -145,7 +145,7 @@ public final class CountTest {
     }
 
     private static void noSuchWhat() {
-        ChangeTracker x = Check.holding("abc");
+        Subject x = Check.holding("abc");
         int[] wrong = {-1, 7, 8, Integer.MIN_VALUE, Integer.MAX_VALUE};
         for (int what : wrong) {
             Check.is("count(" + what + ")", x.count(what), -1);
@@ -154,7 +154,7 @@ public final class CountTest {
 
     /** "how many different marks": as many as there are characters. */
     private static void sixHundredDifferentMarks() {
-        ChangeTracker x = new ChangeTracker();
+        Subject x = new Subject();
         for (int block = 0; block < 75; block++) {
             x.insert(8 * block, Check.codes("xxxxxxxx"), block);
         }
@@ -171,7 +171,7 @@ public final class CountTest {
 
     /** "longest rows of characters with the same mark, not plain": whatever their codes and formats. */
     private static void longestRows() {
-        ChangeTracker x = new ChangeTracker();
+        Subject x = new Subject();
         Check.tracked(x, 1);
         for (int at = 0; at < 600; at += 8) {
             x.insert(at, Check.codes("abcdefgh"), at % 256);
@@ -194,7 +194,7 @@ public final class CountTest {
 
     /** "groups that can be undone (2; one that is open is none yet)": nor does it weigh. */
     private static void anOpenGroupIsNoneYet() {
-        ChangeTracker x = new ChangeTracker();
+        Subject x = new Subject();
         x.open();
         x.insert(0, Check.codes("abc"), 0);
         counts(x, "0 0 0 0 1");
@@ -209,7 +209,7 @@ public final class CountTest {
 
     /** "whether a group is open (6: 1 or 0)" */
     private static void whetherAGroupIsOpen() {
-        ChangeTracker x = new ChangeTracker();
+        Subject x = new Subject();
         Check.is("count(6) at first", x.count(6), 0);
         x.open();
         Check.is("count(6) behind open()", x.count(6), 1);
@@ -222,7 +222,7 @@ public final class CountTest {
     }
 
     private static void emptyText() {
-        ChangeTracker x = Check.holding("a");
+        Subject x = Check.holding("a");
         Check.tracked(x, 1);
         x.erase(0, 1);
         x.accept(0, 1, 2);

@@ -25,8 +25,8 @@ public final class EditTermsTest {
     }
 
     /** One character "a" of format 5 that author 1 inserted, 2 erased, 3 formatted (to 6). */
-    private static ChangeTracker marked() {
-        ChangeTracker x = new ChangeTracker();
+    private static Subject marked() {
+        Subject x = new Subject();
         Check.tracked(x, 1);
         x.insert(0, Check.codes("a"), 5);
         x.author(2);
@@ -37,27 +37,27 @@ public final class EditTermsTest {
         return x;
     }
 
-    private static void answers(String call, int got, int want, ChangeTracker x, String text) {
+    private static void answers(String call, int got, int want, Subject x, String text) {
         Check.is(call, got, want);
         Check.is("the text behind " + call, Check.text(x), text);
     }
 
     /** "Inserted characters are plain; tracked, inserted by the author." */
     private static void insertedArePlainOrByTheAuthor() {
-        ChangeTracker x = new ChangeTracker();
+        Subject x = new Subject();
         x.author(7);
         answers("insert", x.insert(0, 'a', 0), 1, x, "a:0 0/0/0/-1");
         x.track(true);
         answers("insert, tracked", x.insert(0, 'b', 255), 2, x, "b:255 128/0/0/-1, a:0 0/0/0/-1");
         x.author(0);
         answers("inside another's", x.insert(1, 'c', 1), 3, x, "b:255 128/0/0/-1, c:1 1/0/0/-1, a:0 0/0/0/-1");
-        ChangeTracker y = marked();
+        Subject y = marked();
         answers("beside a marked one", y.insert(1, 'b', 0), 2, y, "a:6 2/4/8/5, b:0 8/0/0/-1");
     }
 
     /** "An erased character goes" */
     private static void erasedGoes() {
-        ChangeTracker x = marked();
+        Subject x = marked();
         x.track(false);
         answers("erase of a marked one", x.erase(0, 1), 0, x, "");
         x = Check.holding("ab");
@@ -66,14 +66,14 @@ public final class EditTermsTest {
 
     /** "tracked, it goes if it is own to the author" */
     private static void erasedGoesTrackedIfOwn() {
-        ChangeTracker x = marked();
+        Subject x = marked();
         x.author(1);
         answers("erase of one's own", x.erase(0, 1), 0, x, "");
     }
 
     /** "otherwise the author is one more of those who erased it" */
     private static void erasedOtherwiseByOneMore() {
-        ChangeTracker x = marked();
+        Subject x = marked();
         x.author(7);
         answers("erase by one more", x.erase(0, 1), 1, x, "a:6 2/132/8/5");
         answers("erase by the same one again", x.erase(0, 1), 1, x, "a:6 2/132/8/5");
@@ -84,7 +84,7 @@ public final class EditTermsTest {
     private static void formattedAndNobodyDid() {
         int[] formats = {5, 6, 7, 0, 255};
         for (int format : formats) {
-            ChangeTracker x = marked();
+            Subject x = marked();
             x.track(false);
             answers("format to " + format, x.format(0, 1, format), format == 6 ? 0 : 1, x,
                 "a:" + format + " 2/4/0/-1");
@@ -95,13 +95,13 @@ public final class EditTermsTest {
     private static void formattedOwnKeepsItsMark() {
         int[] formats = {5, 6, 7, 0, 255};
         for (int format : formats) {
-            ChangeTracker x = marked();
+            Subject x = marked();
             x.author(1);
             answers("format of one's own to " + format, x.format(0, 1, format), format == 6 ? 0 : 1, x,
                 "a:" + format + " 2/4/8/5");
             Check.is("groups", x.count(2), format == 6 ? 3 : 4);
         }
-        ChangeTracker x = new ChangeTracker();
+        Subject x = new Subject();
         Check.tracked(x, 0);
         x.insert(0, 'a', 1);
         answers("nobody formatted it", x.format(0, 1, 2), 1, x, "a:2 1/0/0/-1");
@@ -109,7 +109,7 @@ public final class EditTermsTest {
 
     /** "otherwise, if somebody formatted it, or its format is another one": if neither, nothing is done. */
     private static void formattedAsItIsByNobody() {
-        ChangeTracker x = Check.holding("a");
+        Subject x = Check.holding("a");
         Check.tracked(x, 1);
         answers("format to the same one", x.format(0, 1, 0), 0, x, "a:0 0/0/0/-1");
         Check.is("that is no group", x.count(2), 1);
@@ -121,7 +121,7 @@ public final class EditTermsTest {
 
     /** "if somebody formatted it": then the author is one more, though the format is no other one. */
     private static void formattedAsItIsBySomebody() {
-        ChangeTracker x = marked();
+        Subject x = marked();
         x.author(0);
         answers("format to the same one", x.format(0, 1, 6), 0, x, "a:6 2/4/9/5");
         Check.is("that is a group", x.count(2), 4);
@@ -129,7 +129,7 @@ public final class EditTermsTest {
 
     /** "or its format is another one: it gets the format, the author is one more of those who formatted it" */
     private static void formattedToAnotherOne() {
-        ChangeTracker x = new ChangeTracker();
+        Subject x = new Subject();
         x.insert(0, 'a', 255);
         Check.tracked(x, 7);
         answers("format of a plain one", x.format(0, 1, 0), 1, x, "a:0 0/0/128/255");
@@ -139,7 +139,7 @@ public final class EditTermsTest {
 
     /** The same: one who formatted it already is not one more. */
     private static void formattedByTheSameOneAgain() {
-        ChangeTracker x = marked();
+        Subject x = marked();
         answers("format by the same one", x.format(0, 1, 9), 1, x, "a:9 2/4/8/5");
         answers("once more, to the same", x.format(0, 1, 9), 0, x, "a:9 2/4/8/5");
         Check.is("that is no group", x.count(2), 4);
@@ -147,7 +147,7 @@ public final class EditTermsTest {
 
     /** "its old format being the one that it had before any of these" */
     private static void oldFormatIsTheFirstOne() {
-        ChangeTracker x = new ChangeTracker();
+        Subject x = new Subject();
         x.insert(0, 'a', 40);
         for (int author = 0; author <= 7; author++) {
             Check.tracked(x, author);
@@ -161,7 +161,7 @@ public final class EditTermsTest {
 
     /** "and if its format is the old one then, nobody formatted it" */
     private static void backToTheOldFormat() {
-        ChangeTracker x = marked();
+        Subject x = marked();
         x.author(4);
         answers("another one, to the old format", x.format(0, 1, 5), 1, x, "a:5 2/4/0/-1");
         x = marked();
@@ -178,10 +178,10 @@ public final class EditTermsTest {
     private static void acceptedErasedGoes() {
         int[] sets = {4, 4 + 2, 4 + 8, 4 + 1, 255};
         for (int set : sets) {
-            ChangeTracker x = marked();
+            Subject x = marked();
             answers("accept by " + set, x.accept(0, 1, set), 1, x, "");
         }
-        ChangeTracker x = marked();
+        Subject x = marked();
         x.author(7);
         x.erase(0, 1);
         answers("accept by one of two who erased it", x.accept(0, 1, 128), 1, x, "");
@@ -189,7 +189,7 @@ public final class EditTermsTest {
 
     /** "otherwise, if one of them inserted it, nobody did" */
     private static void acceptedInsertedByNobody() {
-        ChangeTracker x = marked();
+        Subject x = marked();
         answers("accept by 2", x.accept(0, 1, 2), 1, x, "a:6 0/4/8/5");
         x = marked();
         answers("accept by 2 and others", x.accept(0, 1, 2 + 1 + 128), 1, x, "a:6 0/4/8/5");
@@ -198,7 +198,7 @@ public final class EditTermsTest {
 
     /** "and if one of them formatted it, nobody did" */
     private static void acceptedFormattedByNobody() {
-        ChangeTracker x = marked();
+        Subject x = marked();
         answers("accept by 8", x.accept(0, 1, 8), 1, x, "a:6 2/4/0/-1");
         x = marked();
         answers("accept by 2 and 8", x.accept(0, 1, 2 + 8), 1, x, "a:6 0/4/0/-1");
@@ -210,7 +210,7 @@ public final class EditTermsTest {
 
     /** The same sentence: "one of them" is in the set. */
     private static void acceptedByOthersStays() {
-        ChangeTracker x = marked();
+        Subject x = marked();
         answers("accept by all others", x.accept(0, 1, 255 - 2 - 4 - 8), 0, x, "a:6 2/4/8/5");
         Check.is("that is no group", x.count(2), 3);
     }
@@ -219,14 +219,14 @@ public final class EditTermsTest {
     private static void rejectedInsertedGoes() {
         int[] sets = {2, 2 + 4, 2 + 8, 2 + 1, 255};
         for (int set : sets) {
-            ChangeTracker x = marked();
+            Subject x = marked();
             answers("reject by " + set, x.reject(0, 1, set), 1, x, "");
         }
     }
 
     /** "otherwise none of them erased it" */
     private static void rejectedErasedByNoneOfThem() {
-        ChangeTracker x = marked();
+        Subject x = marked();
         answers("reject by 4", x.reject(0, 1, 4), 1, x, "a:6 2/0/8/5");
         x = marked();
         for (int author = 4; author <= 7; author++) {
@@ -240,7 +240,7 @@ public final class EditTermsTest {
 
     /** "and if one of them formatted it, it gets its old format, and nobody did" */
     private static void rejectedFormattedGetsItsOldFormat() {
-        ChangeTracker x = marked();
+        Subject x = marked();
         answers("reject by 8", x.reject(0, 1, 8), 1, x, "a:5 2/4/0/-1");
         x = marked();
         answers("reject by 4 and 8", x.reject(0, 1, 4 + 8), 1, x, "a:5 2/0/0/-1");
@@ -256,7 +256,7 @@ public final class EditTermsTest {
 
     /** The same sentence: "one of them" is in the set. */
     private static void rejectedByOthersStays() {
-        ChangeTracker x = marked();
+        Subject x = marked();
         answers("reject by all others", x.reject(0, 1, 255 - 2 - 4 - 8), 0, x, "a:6 2/4/8/5");
         Check.is("that is no group", x.count(2), 3);
     }

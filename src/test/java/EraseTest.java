@@ -12,7 +12,7 @@ public final class EraseTest {
     }
 
     private static void untracked() {
-        ChangeTracker x = Check.holding("abcdef");
+        Subject x = Check.holding("abcdef");
         Check.is("erase(1, 2)", x.erase(1, 2), 4);
         Check.is("the text", Check.view(x, 0), "adef");
         Check.is("erase(3, 1) at the end", x.erase(3, 1), 3);
@@ -21,7 +21,7 @@ public final class EraseTest {
     }
 
     private static void untrackedWhateverTheMarks() {
-        ChangeTracker x = Check.holding("ab");
+        Subject x = Check.holding("ab");
         Check.tracked(x, 1);
         x.insert(2, Check.codes("c"), 0);
         x.erase(0, 1);
@@ -32,7 +32,7 @@ public final class EraseTest {
     }
 
     private static void tracked() {
-        ChangeTracker x = Check.holding("ab");
+        Subject x = Check.holding("ab");
         Check.tracked(x, 1);
         x.insert(2, Check.codes("cd"), 0);
         Check.is("erase of another's and one's own", x.erase(1, 2), 3);
@@ -48,7 +48,7 @@ public final class EraseTest {
     }
 
     private static String eraseOfFormatted() {
-        ChangeTracker x = Check.holding("a");
+        Subject x = Check.holding("a");
         Check.tracked(x, 2);
         x.format(0, 1, 7);
         x.author(3);
@@ -57,17 +57,17 @@ public final class EraseTest {
     }
 
     private static void rangeOfNone() {
-        ChangeTracker x = Check.holding("abc");
+        Subject x = Check.holding("abc");
         String before = Check.all(x);
         for (int at = 0; at <= 3; at++) {
             Check.is("erase(" + at + ", 0)", x.erase(at, 0), 3);
         }
         Check.is("the state behind erase of none", Check.all(x), before);
-        Check.is("erase(0, 0) of a new object", new ChangeTracker().erase(0, 0), 0);
+        Check.is("erase(0, 0) of a new object", new Subject().erase(0, 0), 0);
     }
 
     private static void wrongRanges() {
-        ChangeTracker x = Check.holding("abc");
+        Subject x = Check.holding("abc");
         int[][] wrong = {
             {-1, 1}, {-1, 0}, {4, 0}, {0, 4}, {3, 1}, {1, 3}, {0, -1}, {2, -1}, {4, -1}, {-1, -1},
             {1, Integer.MAX_VALUE}, {Integer.MAX_VALUE, 1}, {Integer.MAX_VALUE, Integer.MAX_VALUE},
@@ -81,7 +81,7 @@ public final class EraseTest {
 
     /** "how long the text is": of a full text, tracked and not. */
     private static void ofAFullText() {
-        ChangeTracker x = Check.holding(600);
+        Subject x = Check.holding(600);
         Check.tracked(x, 3);
         Check.is("erase(0, 600), tracked", x.erase(0, 600), 600);
         Check.is("length(1)", x.length(1), 0);
@@ -93,7 +93,7 @@ public final class EraseTest {
 
     /** "Erases a range (perhaps of none)": tracked, too, it leaves what can be redone. */
     private static void rangeOfNoneTracked() {
-        ChangeTracker x = Check.holding("abc");
+        Subject x = Check.holding("abc");
         Check.tracked(x, 3);
         x.erase(0, 1);
         x.undo();

@@ -10,12 +10,12 @@ public final class ExceptionTermsTest {
     private static final Class<?> STATE = IllegalStateException.class;
 
     /** A call that is refused, and what it throws. */
-    private record Refused(String name, Class<?> thrown, Consumer<ChangeTracker> call) {
+    private record Refused(String name, Class<?> thrown, Consumer<Subject> call) {
     }
 
     public static void main(String[] args) {
         theFirstOneListed();
-        inEachState("a new object", ChangeTracker::new, wrongStates(false, true, true));
+        inEachState("a new object", Subject::new, wrongStates(false, true, true));
         inEachState("an object with marks", ExceptionTermsTest::marked, wrongStates(false, false, false));
         inEachState("all undone", ExceptionTermsTest::allUndone, wrongStates(false, true, false));
         inEachState("none undone", () -> Check.holding("abcd"), wrongStates(false, false, true));
@@ -27,8 +27,8 @@ public final class ExceptionTermsTest {
     }
 
     /** All kinds of marks, author 2 at work, tracked; some groups to undo, two to redo. */
-    private static ChangeTracker marked() {
-        ChangeTracker x = Check.holding("abcd");
+    private static Subject marked() {
+        Subject x = Check.holding("abcd");
         Check.tracked(x, 1);
         x.erase(0, 2);
         x.format(1, 2, 9);
@@ -44,29 +44,29 @@ public final class ExceptionTermsTest {
         return x;
     }
 
-    private static ChangeTracker allUndone() {
-        ChangeTracker x = Check.holding("abcd");
+    private static Subject allUndone() {
+        Subject x = Check.holding("abcd");
         x.format(0, 4, 5);
         x.undo();
         x.undo();
         return x;
     }
 
-    private static ChangeTracker open() {
-        ChangeTracker x = marked();
+    private static Subject open() {
+        Subject x = marked();
         x.open();
         return x;
     }
 
-    private static ChangeTracker openWithEdits() {
-        ChangeTracker x = open();
+    private static Subject openWithEdits() {
+        Subject x = open();
         x.insert(0, Check.codes("yz"), 3);
         x.erase(1, 2);
         return x;
     }
 
-    private static ChangeTracker full() {
-        ChangeTracker x = Check.holding(600);
+    private static Subject full() {
+        Subject x = Check.holding(600);
         Check.tracked(x, 7);
         x.erase(3, 4);
         x.format(0, 9, 1);
@@ -74,8 +74,8 @@ public final class ExceptionTermsTest {
         return x;
     }
 
-    private static ChangeTracker fullAndOpen() {
-        ChangeTracker x = full();
+    private static Subject fullAndOpen() {
+        Subject x = full();
         x.open();
         return x;
     }
@@ -84,8 +84,8 @@ public final class ExceptionTermsTest {
      * "what throws changes nothing": each call that is refused throws what is due and leaves what can be
      * seen; and behind all of them, undoing and redoing goes as in an object that never got them.
      */
-    private static void inEachState(String state, Supplier<ChangeTracker> maker, List<Refused> more) {
-        ChangeTracker x = maker.get();
+    private static void inEachState(String state, Supplier<Subject> maker, List<Refused> more) {
+        Subject x = maker.get();
         List<Refused> calls = wrongInAnyState(x.length(0));
         calls.addAll(more);
         for (Refused r : calls) {
@@ -94,7 +94,7 @@ public final class ExceptionTermsTest {
         Check.is("the history of " + state, Check.history(x), Check.history(maker.get()));
     }
 
-    private static void refuses(String state, ChangeTracker x, Refused r) {
+    private static void refuses(String state, Subject x, Refused r) {
         String call = r.name + " on " + state;
         Runnable run = () -> r.call.accept(x);
         if (r.thrown == INDEX) {
@@ -160,15 +160,15 @@ public final class ExceptionTermsTest {
     private static List<Refused> wrongStates(boolean isOpen, boolean noUndo, boolean noRedo) {
         List<Refused> calls = new ArrayList<>();
         if (isOpen) {
-            calls.add(new Refused("open()", STATE, ChangeTracker::open));
+            calls.add(new Refused("open()", STATE, Subject::open));
         } else {
-            calls.add(new Refused("close()", STATE, ChangeTracker::close));
+            calls.add(new Refused("close()", STATE, Subject::close));
         }
         if (noUndo) {
-            calls.add(new Refused("undo()", STATE, ChangeTracker::undo));
+            calls.add(new Refused("undo()", STATE, Subject::undo));
         }
         if (noRedo) {
-            calls.add(new Refused("redo()", STATE, ChangeTracker::redo));
+            calls.add(new Refused("redo()", STATE, Subject::redo));
         }
         return calls;
     }
@@ -184,7 +184,7 @@ public final class ExceptionTermsTest {
 
     /** "Of several exceptions that apply the first one listed is thrown" */
     private static void theFirstOneListed() {
-        ChangeTracker x = full();
+        Subject x = full();
         Check.index("insert: no place, no format, no code, too long", x, () -> x.insert(601, 0, 256));
         Check.index("insert: no place, no format, too long", x, () -> x.insert(-1, 65, -1));
         Check.index("insert: no place, no code, too long", x, () -> x.insert(601, 0, 0));
@@ -192,7 +192,7 @@ public final class ExceptionTermsTest {
         Check.argument("insert: no format, no code, too long", x, () -> x.insert(600, 0, -1));
         Check.argument("insert: no format, too long", x, () -> x.insert(600, 65, 256));
         Check.argument("insert: no code, too long", x, () -> x.insert(600, 0xFF00, 0));
-        ChangeTracker y = marked();
+        Subject y = marked();
         Check.index("insert: no place, no format", y, () -> y.insert(y.length(0) + 1, 65, 256));
         Check.index("insert: no place, no code", y, () -> y.insert(-1, 0, 0));
         Check.index("format: no range, no format", y, () -> y.format(0, -1, 256));

@@ -14,7 +14,7 @@ public final class FormatTest {
     }
 
     private static void untracked() {
-        ChangeTracker x = Check.holding("abcd");
+        Subject x = Check.holding("abcd");
         Check.is("format(1, 2, 255)", x.format(1, 2, 255), 2);
         Check.is("the text", Check.text(x), "a:0 0/0/0/-1, b:255 0/0/0/-1, c:255 0/0/0/-1, d:0 0/0/0/-1");
         Check.is("format(0, 4, 255)", x.format(0, 4, 255), 2);
@@ -24,7 +24,7 @@ public final class FormatTest {
     }
 
     private static void untrackedTakesTheFormattersAway() {
-        ChangeTracker x = Check.holding("ab");
+        Subject x = Check.holding("ab");
         Check.tracked(x, 1);
         x.insert(2, Check.codes("c"), 0);
         x.author(2);
@@ -36,7 +36,7 @@ public final class FormatTest {
     }
 
     private static void tracked() {
-        ChangeTracker x = Check.holding("ab");
+        Subject x = Check.holding("ab");
         Check.tracked(x, 0);
         Check.is("the same format", x.format(0, 2, 0), 0);
         Check.is("the text", Check.text(x), "a:0 0/0/0/-1, b:0 0/0/0/-1");
@@ -56,7 +56,7 @@ public final class FormatTest {
     }
 
     private static void trackedBackToTheOldFormat() {
-        ChangeTracker x = Check.holding("a");
+        Subject x = Check.holding("a");
         Check.tracked(x, 1);
         x.format(0, 1, 9);
         x.author(2);
@@ -68,7 +68,7 @@ public final class FormatTest {
     }
 
     private static void trackedOfOnesOwn() {
-        ChangeTracker x = new ChangeTracker();
+        Subject x = new Subject();
         Check.tracked(x, 1);
         x.insert(0, Check.codes("a"), 4);
         Check.is("one's own", x.format(0, 1, 5), 1);
@@ -88,7 +88,7 @@ public final class FormatTest {
     }
 
     private static void countsFormatsNotMarks() {
-        ChangeTracker x = Check.holding("ab");
+        Subject x = Check.holding("ab");
         Check.tracked(x, 1);
         x.format(0, 2, 5);
         x.track(false);
@@ -99,7 +99,7 @@ public final class FormatTest {
     }
 
     private static void wrongArguments() {
-        ChangeTracker x = Check.holding("abc");
+        Subject x = Check.holding("abc");
         Check.index("format(0, 4, 1)", x, () -> x.format(0, 4, 1));
         Check.index("format(-1, 1, 1)", x, () -> x.format(-1, 1, 1));
         Check.index("format(0, -1, 1)", x, () -> x.format(0, -1, 1));
@@ -113,7 +113,7 @@ public final class FormatTest {
 
     /** "of how many characters the format is another one then": from none to all 600. */
     private static void ofHowManyItIsAnotherOne() {
-        ChangeTracker x = Check.holding(600);
+        Subject x = Check.holding(600);
         Check.is("format(0, 600, 255)", x.format(0, 600, 255), 600);
         Check.is("format(599, 1, 0)", x.format(599, 1, 0), 1);
         Check.is("format(0, 600, 0)", x.format(0, 600, 0), 599);
@@ -126,12 +126,12 @@ public final class FormatTest {
 
     /** A range of none has no character whose format could be another one. */
     private static void ofNone() {
-        ChangeTracker x = Check.holding("abc");
+        Subject x = Check.holding("abc");
         String before = Check.all(x);
         for (int at = 0; at <= 3; at++) {
             Check.is("format(" + at + ", 0, 9)", x.format(at, 0, 9), 0);
         }
         Check.is("the state", Check.all(x), before);
-        Check.is("format(0, 0, 0) of a new object", new ChangeTracker().format(0, 0, 0), 0);
+        Check.is("format(0, 0, 0) of a new object", new Subject().format(0, 0, 0), 0);
     }
 }

@@ -1,7 +1,7 @@
 /** Terms: groups, what is none, and what can be undone and redone. A test for each sentence. */
 public final class GroupTermsTest {
     private interface Edit {
-        void make(ChangeTracker x);
+        void make(Subject x);
     }
 
     /** Edits that change what marked() makes, one of each kind. */
@@ -45,8 +45,8 @@ public final class GroupTermsTest {
     }
 
     /** a plain, b erased, c formatted to 9, d (format 4) inserted, all by author 1, who is at work, tracked. */
-    private static ChangeTracker marked() {
-        ChangeTracker x = Check.holding("abc");
+    private static Subject marked() {
+        Subject x = Check.holding("abc");
         Check.tracked(x, 1);
         x.erase(1, 1);
         x.format(2, 1, 9);
@@ -55,8 +55,8 @@ public final class GroupTermsTest {
     }
 
     /** The same, with one more group, which can be redone. */
-    private static ChangeTracker markedWithOneToRedo() {
-        ChangeTracker x = marked();
+    private static Subject markedWithOneToRedo() {
+        Subject x = marked();
         x.insert(4, Check.codes("e"), 4);
         x.undo();
         return x;
@@ -64,7 +64,7 @@ public final class GroupTermsTest {
 
     /** "Edits made while a group is open belong to it" */
     private static void editsOfAnOpenGroupBelongToIt() {
-        ChangeTracker x = marked();
+        Subject x = marked();
         String before = Check.text(x);
         x.open();
         for (Edit edit : CHANGING) {
@@ -80,7 +80,7 @@ public final class GroupTermsTest {
     /** "each other one is a group by itself" */
     private static void eachOtherEditIsAGroup() {
         for (int i = 0; i < CHANGING.length; i++) {
-            ChangeTracker x = marked();
+            Subject x = marked();
             String before = Check.text(x);
             x.open();
             x.close();
@@ -94,7 +94,7 @@ public final class GroupTermsTest {
     /** "A group of which each edit leaves the text as it was .. is none." */
     private static void noGroupIfEachEditLeavesTheText() {
         for (int i = 0; i < LEAVING.length; i++) {
-            ChangeTracker x = marked();
+            Subject x = marked();
             String before = Check.all(x);
             LEAVING[i].make(x);
             Check.is("the state behind the leaving edit " + i, Check.all(x), before);
@@ -103,7 +103,7 @@ public final class GroupTermsTest {
             Check.is("close() behind the leaving edit " + i, x.close(), 0);
             Check.is("the state behind a group of it", Check.all(x), before);
         }
-        ChangeTracker x = marked();
+        Subject x = marked();
         String before = Check.history(marked());
         x.open();
         for (Edit edit : LEAVING) {
@@ -115,7 +115,7 @@ public final class GroupTermsTest {
 
     /** "or that has no edits, is none" */
     private static void noGroupWithoutEdits() {
-        ChangeTracker x = marked();
+        Subject x = marked();
         String before = Check.all(x);
         x.open();
         Check.is("close()", x.close(), 0);
@@ -133,7 +133,7 @@ public final class GroupTermsTest {
     /** The same sentence: "each edit". */
     private static void oneEditThatChangesIsEnough() {
         for (int i = 0; i < CHANGING.length; i++) {
-            ChangeTracker x = marked();
+            Subject x = marked();
             x.open();
             LEAVING[0].make(x);
             LEAVING[1].make(x);
@@ -146,7 +146,7 @@ public final class GroupTermsTest {
 
     /** The same sentence: edits that change the text are a group, though it is as before behind them. */
     private static void editsThatCancelOutAreAGroup() {
-        ChangeTracker x = marked();
+        Subject x = marked();
         String before = Check.text(x);
         x.open();
         x.insert(0, Check.codes("z"), 0);
@@ -162,7 +162,7 @@ public final class GroupTermsTest {
 
     /** "UNDO makes the text what it was before the latest group that can be undone" */
     private static void undoMakesTheTextWhatItWas() {
-        ChangeTracker x = marked();
+        Subject x = marked();
         String[] before = new String[CHANGING.length];
         for (int i = 0; i < CHANGING.length; i++) {
             before[i] = Check.text(x);
@@ -177,14 +177,14 @@ public final class GroupTermsTest {
 
     /** The same sentence, with the texts that are as short and as long as can be. */
     private static void undoAndRedoOfAnEmptyAndAFullText() {
-        ChangeTracker x = Check.holding(600);
+        Subject x = Check.holding(600);
         x.erase(0, 600);
         Check.is("undo() of the erasing of all", x.undo(), 1);
         Check.is("length(0)", x.length(0), 600);
         Check.is("the last code", x.seen(0, 599, 0), 'x');
         Check.is("redo() of the erasing of all", x.redo(), 1);
         Check.is("length(0)", x.length(0), 0);
-        ChangeTracker y = Check.holding("a");
+        Subject y = Check.holding("a");
         y.undo();
         Check.is("length(0) before the first group", y.length(0), 0);
         y.redo();
@@ -193,7 +193,7 @@ public final class GroupTermsTest {
 
     /** "it can be redone then" */
     private static void whatIsUndoneCanBeRedone() {
-        ChangeTracker x = marked();
+        Subject x = marked();
         for (int i = 1; i <= 4; i++) {
             x.undo();
             Check.is("count(2)", x.count(2), 4 - i);
@@ -211,7 +211,7 @@ public final class GroupTermsTest {
     /** "REDO makes it what it was behind that" */
     private static void redoMakesTheTextWhatItWasBehind() {
         for (int i = 0; i < CHANGING.length; i++) {
-            ChangeTracker x = marked();
+            Subject x = marked();
             CHANGING[i].make(x);
             String behind = Check.text(x);
             x.undo();
@@ -223,7 +223,7 @@ public final class GroupTermsTest {
     /** "An edit that changes the text .. makes that nothing can be redone." */
     private static void anEditThatChangesEndsRedoing() {
         for (int i = 0; i < CHANGING.length; i++) {
-            ChangeTracker x = markedWithOneToRedo();
+            Subject x = markedWithOneToRedo();
             CHANGING[i].make(x);
             Check.is("count(3) behind edit " + i, x.count(3), 0);
             Check.is("count(5) behind edit " + i, x.count(5), 0);
@@ -236,7 +236,7 @@ public final class GroupTermsTest {
     /** "(in an open group, too)" */
     private static void inAnOpenGroupToo() {
         for (int i = 0; i < CHANGING.length; i++) {
-            ChangeTracker x = markedWithOneToRedo();
+            Subject x = markedWithOneToRedo();
             x.open();
             Check.is("count(3) behind open()", x.count(3), 1);
             CHANGING[i].make(x);
@@ -250,7 +250,7 @@ public final class GroupTermsTest {
     /** The same sentence: "that changes the text". */
     private static void anEditThatLeavesTheTextDoesNot() {
         for (int i = 0; i < LEAVING.length; i++) {
-            ChangeTracker x = markedWithOneToRedo();
+            Subject x = markedWithOneToRedo();
             LEAVING[i].make(x);
             Check.is("count(3) behind the leaving edit " + i, x.count(3), 1);
             x.open();

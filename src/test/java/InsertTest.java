@@ -17,7 +17,7 @@ public final class InsertTest {
     }
 
     private static void beforeAPlaceOrAtTheEnd() {
-        ChangeTracker x = new ChangeTracker();
+        Subject x = new Subject();
         Check.is("insert into nothing", x.insert(0, Check.codes("bd"), 0), 2);
         Check.is("insert at the beginning", x.insert(0, Check.codes("a"), 0), 3);
         Check.is("insert inside", x.insert(2, Check.codes("c"), 0), 4);
@@ -26,27 +26,27 @@ public final class InsertTest {
     }
 
     private static void bytesUpToTheFirstZero() {
-        ChangeTracker x = new ChangeTracker();
+        Subject x = new Subject();
         Check.is("eight bytes", x.insert(0, Check.codes("abcdefgh"), 0), 8);
         Check.is("the text", Check.view(x, 0), "abcdefgh");
-        x = new ChangeTracker();
+        x = new Subject();
         Check.is("bytes behind a zero", x.insert(0, 0x4400434241L, 0), 3);
         Check.is("the text", Check.view(x, 0), "ABC");
-        x = new ChangeTracker();
+        x = new Subject();
         Check.is("all bytes 255", x.insert(0, -1L, 0), 8);
         for (int i = 0; i < 8; i++) {
             Check.is("code " + i, x.seen(0, i, 0), 255);
         }
-        x = new ChangeTracker();
+        x = new Subject();
         Check.is("the highest byte 128", x.insert(0, 0x8001010101010101L, 0), 8);
         Check.is("the last code", x.seen(0, 7, 0), 128);
-        x = new ChangeTracker();
+        x = new Subject();
         Check.is("the highest byte after a zero", x.insert(0, 0xFF00000000000001L, 0), 1);
         Check.is("the only code", x.seen(0, 0, 0), 1);
     }
 
     private static void formatsAndMarks() {
-        ChangeTracker x = new ChangeTracker();
+        Subject x = new Subject();
         x.author(3);
         x.insert(0, Check.codes("a"), 255);
         x.track(true);
@@ -55,7 +55,7 @@ public final class InsertTest {
     }
 
     private static void wrongPlaces() {
-        ChangeTracker x = Check.holding("abc");
+        Subject x = Check.holding("abc");
         int[] wrong = {-1, 4, 600, Integer.MIN_VALUE, Integer.MAX_VALUE};
         for (int at : wrong) {
             Check.index("insert(" + at + ", ..)", x, () -> x.insert(at, 65, 0));
@@ -63,7 +63,7 @@ public final class InsertTest {
     }
 
     private static void wrongArguments() {
-        ChangeTracker x = Check.holding("abc");
+        Subject x = Check.holding("abc");
         int[] wrong = {-1, 256, Integer.MIN_VALUE, Integer.MAX_VALUE};
         for (int format : wrong) {
             Check.argument("insert(0, 65, " + format + ")", x, () -> x.insert(0, 65, format));
@@ -74,7 +74,7 @@ public final class InsertTest {
     }
 
     private static void notMoreThanSixHundred() {
-        ChangeTracker x = Check.holding(597);
+        Subject x = Check.holding(597);
         Check.state("insert of four", x, () -> x.insert(0, Check.codes("abcd"), 0));
         Check.state("insert of eight", x, () -> x.insert(597, Check.codes("abcdefgh"), 0));
         Check.is("insert of three", x.insert(597, Check.codes("abc"), 0), 600);
@@ -83,7 +83,7 @@ public final class InsertTest {
     }
 
     private static void orderOfExceptions() {
-        ChangeTracker x = Check.holding(600);
+        Subject x = Check.holding(600);
         Check.index("no place, no format, no code", x, () -> x.insert(601, 0, 256));
         Check.argument("no format, too long", x, () -> x.insert(0, 65, 256));
         Check.argument("no code, too long", x, () -> x.insert(0, 0, 0));
@@ -94,7 +94,7 @@ public final class InsertTest {
         String letters = "abcdefgh";
         for (int n = 1; n <= 8; n++) {
             long behind = n >= 7 ? 0 : -1L << (8 * (n + 1));
-            ChangeTracker x = new ChangeTracker();
+            Subject x = new Subject();
             Check.is("insert of " + n, x.insert(0, Check.codes(letters.substring(0, n)) | behind, 0), n);
             Check.is("the text", Check.view(x, 0), letters.substring(0, n));
         }
@@ -103,7 +103,7 @@ public final class InsertTest {
     /** "IllegalStateException: there would be more than 600": for each room that is left. */
     private static void upToEachFullText() {
         for (int room = 0; room <= 8; room++) {
-            ChangeTracker x = Check.holding(600 - room);
+            Subject x = Check.holding(600 - room);
             if (room < 8) {
                 long tooMany = Check.codes("abcdefgh".substring(0, room + 1));
                 Check.state("insert of one more than " + room, x, () -> x.insert(0, tooMany, 0));
@@ -119,14 +119,14 @@ public final class InsertTest {
 
     /** The same: bytes behind a zero byte are no characters, and need no room. */
     private static void zeroByteWhereThereIsLittleRoom() {
-        ChangeTracker x = Check.holding(599);
+        Subject x = Check.holding(599);
         Check.is("insert of one and bytes behind a zero", x.insert(599, 0xFFFFFFFFFFFF0041L, 0), 600);
         Check.state("the same in a full text", x, () -> x.insert(599, 0xFFFFFFFFFFFF0041L, 0));
     }
 
     /** "IllegalArgumentException: also if the lowest byte is 0" */
     private static void lowestByteZero() {
-        ChangeTracker x = Check.holding("abc");
+        Subject x = Check.holding("abc");
         for (int i = 1; i < 8; i++) {
             long codes = 65L << (8 * i);
             Check.argument("a code in byte " + i + " alone", x, () -> x.insert(1, codes, 0));
@@ -138,7 +138,7 @@ public final class InsertTest {
 
     /** The text is full of what is in it now: undo() makes room, redo() takes it. */
     private static void fullOfMarksAndRoomByUndo() {
-        ChangeTracker x = Check.holding(599);
+        Subject x = Check.holding(599);
         Check.tracked(x, 1);
         x.insert(0, Check.codes("a"), 0);
         Check.state("insert into a full text", x, () -> x.insert(0, Check.codes("b"), 0));

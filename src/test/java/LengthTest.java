@@ -8,7 +8,7 @@ public final class LengthTest {
     }
 
     private static void views() {
-        ChangeTracker x = Check.holding("abcd");
+        Subject x = Check.holding("abcd");
         Check.tracked(x, 1);
         x.insert(4, Check.codes("efg"), 0);
         x.format(0, 2, 9);
@@ -22,14 +22,14 @@ public final class LengthTest {
         lengths(x, 4, 4, 4);
     }
 
-    private static void lengths(ChangeTracker x, int all, int accepted, int rejected) {
+    private static void lengths(Subject x, int all, int accepted, int rejected) {
         Check.is("length(0)", x.length(0), all);
         Check.is("length(1)", x.length(1), accepted);
         Check.is("length(2)", x.length(2), rejected);
     }
 
     private static void noSuchView() {
-        ChangeTracker x = Check.holding("abcd");
+        Subject x = Check.holding("abcd");
         int[] wrong = {-1, 3, 4, Integer.MIN_VALUE, Integer.MAX_VALUE};
         for (int view : wrong) {
             Check.is("length(" + view + ")", x.length(view), -1);
@@ -38,7 +38,7 @@ public final class LengthTest {
 
     /** "How many characters a view has": from none to 600. */
     private static void emptyAndFull() {
-        ChangeTracker x = new ChangeTracker();
+        Subject x = new Subject();
         lengths(x, 0, 0, 0);
         Check.tracked(x, 5);
         for (int at = 0; at < 600; at += 8) {

@@ -10,7 +10,7 @@ public final class MarkTest {
     }
 
     private static void marks() {
-        ChangeTracker x = new ChangeTracker();
+        Subject x = new Subject();
         Check.tracked(x, 7);
         x.insert(0, Check.codes("a"), 255);
         x.author(6);
@@ -26,7 +26,7 @@ public final class MarkTest {
     }
 
     private static void oldFormatZero() {
-        ChangeTracker x = Check.holding("ab");
+        Subject x = Check.holding("ab");
         Check.tracked(x, 1);
         x.format(1, 1, 1);
         Check.is("mark(0, 3) of a plain one", x.mark(0, 3), -1);
@@ -37,7 +37,7 @@ public final class MarkTest {
     }
 
     private static void wrongArguments() {
-        ChangeTracker x = Check.holding("abc");
+        Subject x = Check.holding("abc");
         int[] places = {-1, 3, 4, 600, Integer.MIN_VALUE, Integer.MAX_VALUE};
         for (int at : places) {
             Check.index("mark(" + at + ", 0)", x, () -> x.mark(at, 0));
@@ -51,7 +51,7 @@ public final class MarkTest {
 
     /** "there is no such place": the last one is the length less 1. */
     private static void lastPlace() {
-        ChangeTracker x = Check.holding(599);
+        Subject x = Check.holding(599);
         Check.tracked(x, 7);
         x.insert(599, Check.codes("a"), 0);
         Check.is("mark(599, 0)", x.mark(599, 0), 128);
@@ -62,7 +62,7 @@ public final class MarkTest {
     }
 
     private static void emptyText() {
-        ChangeTracker x = new ChangeTracker();
+        Subject x = new Subject();
         for (int w = -1; w <= 4; w++) {
             int what = w;
             Check.index("mark(0, " + what + ") of a new object", x, () -> x.mark(0, what));

@@ -5,9 +5,10 @@ import java.util.function.LongSupplier;
 public final class ModelTest {
     private static final int RUNS = 100;
     private static final int CALLS = 512;
+    private static final int CALLS_BETWEEN_LOOKS = 32;
 
     private final Random random;
-    private final ChangeTracker tracker = new ChangeTracker();
+    private final Subject tracker = new Subject();
     private final Model model = new Model();
     private final int authorsInUse;
     private final int formatsInUse;
@@ -40,7 +41,7 @@ public final class ModelTest {
             } else {
                 anyCall(call);
             }
-            if (i % 16 == 0) {
+            if (i % CALLS_BETWEEN_LOOKS == 0) {
                 compareAll(call);
             }
         }

@@ -9,7 +9,7 @@ public final class NewObjectTest {
     }
 
     private static void noCharacters() {
-        ChangeTracker x = new ChangeTracker();
+        Subject x = new Subject();
         for (int view = 0; view < 3; view++) {
             Check.is("length(" + view + ")", x.length(view), 0);
         }
@@ -21,10 +21,10 @@ public final class NewObjectTest {
     }
 
     private static void authorAndTracking() {
-        ChangeTracker x = new ChangeTracker();
+        Subject x = new Subject();
         Check.is("track(false)", x.track(false), false);
         Check.is("author(5)", x.author(5), 0);
-        ChangeTracker y = new ChangeTracker();
+        Subject y = new Subject();
         y.insert(0, Check.codes("a"), 1);
         Check.is("an untracked character", Check.letter(y, 0), "a:1 0/0/0/-1");
         y.track(true);
@@ -33,7 +33,7 @@ public final class NewObjectTest {
     }
 
     private static void noGroup() {
-        ChangeTracker x = new ChangeTracker();
+        Subject x = new Subject();
         for (int what = 2; what <= 6; what++) {
             Check.is("count(" + what + ")", x.count(what), 0);
         }
@@ -46,8 +46,8 @@ public final class NewObjectTest {
     }
 
     private static void objectsAreApart() {
-        ChangeTracker x = Check.holding("abc");
-        ChangeTracker y = new ChangeTracker();
+        Subject x = Check.holding("abc");
+        Subject y = new Subject();
         x.author(3);
         x.track(true);
         x.open();

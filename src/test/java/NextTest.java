@@ -12,7 +12,7 @@ public final class NextTest {
     }
 
     private static void finds() {
-        ChangeTracker x = Check.holding("abcdef");
+        Subject x = Check.holding("abcdef");
         Check.tracked(x, 1);
         x.insert(6, Check.codes("g"), 0);
         x.author(2);
@@ -33,7 +33,7 @@ public final class NextTest {
     }
 
     private static void authorZero() {
-        ChangeTracker x = Check.holding("abc");
+        Subject x = Check.holding("abc");
         Check.tracked(x, 0);
         x.erase(1, 1);
         Check.is("next(0, 1)", x.next(0, 1), 1);
@@ -41,7 +41,7 @@ public final class NextTest {
     }
 
     private static void notBehindTheEnd() {
-        ChangeTracker x = Check.holding("abcd");
+        Subject x = Check.holding("abcd");
         Check.tracked(x, 1);
         x.erase(0, 4);
         x.track(false);
@@ -54,7 +54,7 @@ public final class NextTest {
     }
 
     private static void wrongArguments() {
-        ChangeTracker x = Check.holding("abc");
+        Subject x = Check.holding("abc");
         int[] places = {-1, 4, Integer.MIN_VALUE, Integer.MAX_VALUE};
         for (int at : places) {
             Check.index("next(" + at + ", 1)", x, () -> x.next(at, 1));
@@ -69,11 +69,11 @@ public final class NextTest {
 
     /** "from at (which may be the length) on": of an empty text, of a full one. */
     private static void fromTheLengthOn() {
-        ChangeTracker x = new ChangeTracker();
+        Subject x = new Subject();
         Check.is("next(0, 255) of a new object", x.next(0, 255), -1);
         Check.index("next(1, 255) of a new object", x, () -> x.next(1, 255));
         Check.index("next(-1, 255) of a new object", x, () -> x.next(-1, 255));
-        ChangeTracker y = Check.holding(600);
+        Subject y = Check.holding(600);
         Check.tracked(y, 4);
         y.erase(0, 600);
         Check.is("next(600, 16)", y.next(600, 16), -1);
@@ -83,7 +83,7 @@ public final class NextTest {
 
     /** "The first place": the first of all, and the last of all. */
     private static void firstAndLastPlace() {
-        ChangeTracker x = Check.holding(600);
+        Subject x = Check.holding(600);
         Check.is("next(0, 255)", x.next(0, 255), -1);
         Check.tracked(x, 0);
         x.erase(599, 1);
@@ -96,7 +96,7 @@ public final class NextTest {
 
     /** "one of a set of authors inserted, erased or formatted", with every set that there is. */
     private static void setsFrom1To255() {
-        ChangeTracker x = Check.holding("abcdefgh");
+        Subject x = Check.holding("abcdefgh");
         for (int author = 0; author < 8; author++) {
             Check.tracked(x, author);
             if (author % 2 == 0) {

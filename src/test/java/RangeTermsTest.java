@@ -2,7 +2,7 @@
 public final class RangeTermsTest {
     /** A call with a range. */
     private interface Ranged {
-        int call(ChangeTracker x, int at, int n);
+        int call(Subject x, int at, int n);
     }
 
     private static final String[] NAMES = {"erase", "format", "accept", "reject"};
@@ -27,8 +27,8 @@ public final class RangeTermsTest {
     }
 
     /** Five characters that each of the calls changes. */
-    private static ChangeTracker marked() {
-        ChangeTracker x = new ChangeTracker();
+    private static Subject marked() {
+        Subject x = new Subject();
         Check.tracked(x, 1);
         x.insert(0, Check.codes("abcde"), 0);
         x.track(false);
@@ -59,7 +59,7 @@ public final class RangeTermsTest {
     private static void nCharactersFromPlaceAtOn(int call) {
         for (int at = 0; at <= 5; at++) {
             for (int n = 0; n <= 5 - at; n++) {
-                ChangeTracker x = marked();
+                Subject x = marked();
                 int answer = CALLS[call].call(x, at, n);
                 Check.is(name(call, at, n), answer, call == 0 ? 5 - n : n);
                 Check.is("the text behind " + name(call, at, n), Check.text(x), wanted(call, at, n));
@@ -70,7 +70,7 @@ public final class RangeTermsTest {
 
     /** "there is one if n is 0 or more" */
     private static void nIsZeroOrMore(int call) {
-        ChangeTracker x = marked();
+        Subject x = marked();
         int[] wrong = {-1, -2, -5, Integer.MIN_VALUE, Integer.MIN_VALUE + 1};
         for (int n : wrong) {
             for (int at = 0; at <= 5; at++) {
@@ -81,7 +81,7 @@ public final class RangeTermsTest {
 
     /** "at 0 or more" */
     private static void atIsZeroOrMore(int call) {
-        ChangeTracker x = marked();
+        Subject x = marked();
         int[] wrong = {-1, -2, -5, Integer.MIN_VALUE, Integer.MIN_VALUE + 1};
         for (int at : wrong) {
             refuses(call, x, at, 0);
@@ -97,7 +97,7 @@ public final class RangeTermsTest {
 
     /** "at + n not above the length" */
     private static void atPlusNIsNotAboveTheLength(int call) {
-        ChangeTracker x = marked();
+        Subject x = marked();
         for (int at = 0; at <= 6; at++) {
             refuses(call, x, at, 6 - at);
             refuses(call, x, at, 600);
@@ -109,7 +109,7 @@ public final class RangeTermsTest {
 
     /** The same: the sum is above the length even where an int would wrap around. */
     private static void atPlusNDoesNotWrapAround(int call) {
-        ChangeTracker x = marked();
+        Subject x = marked();
         refuses(call, x, Integer.MAX_VALUE, 0);
         refuses(call, x, 0, Integer.MAX_VALUE);
         refuses(call, x, 1, Integer.MAX_VALUE);
@@ -122,7 +122,7 @@ public final class RangeTermsTest {
 
     /** A text of none has one range, 0, 0. */
     private static void rangesOfAnEmptyText(int call) {
-        ChangeTracker x = new ChangeTracker();
+        Subject x = new Subject();
         Check.is(name(call, 0, 0) + " of an empty text", CALLS[call].call(x, 0, 0), 0);
         Check.is("groups behind it", x.count(2), 0);
         refuses(call, x, 0, 1);
@@ -133,7 +133,7 @@ public final class RangeTermsTest {
 
     /** A full text has ranges up to 0, 600 and 600, 0. */
     private static void rangesOfAFullText(int call) {
-        ChangeTracker x = new ChangeTracker();
+        Subject x = new Subject();
         Check.tracked(x, 1);
         for (int at = 0; at < 600; at += 8) {
             x.insert(at, Check.codes("abcdefgh"), 0);
@@ -149,7 +149,7 @@ public final class RangeTermsTest {
         Check.is(name(call, 0, 600), CALLS[call].call(x, 0, 600), call == 0 ? 0 : 600);
     }
 
-    private static void refuses(int call, ChangeTracker x, int at, int n) {
+    private static void refuses(int call, Subject x, int at, int n) {
         Check.index(name(call, at, n), x, () -> CALLS[call].call(x, at, n));
     }
 }

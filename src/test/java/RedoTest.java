@@ -12,7 +12,7 @@ public final class RedoTest {
     }
 
     private static void redoesInOrder() {
-        ChangeTracker x = new ChangeTracker();
+        Subject x = new Subject();
         String[] texts = new String[5];
         texts[0] = Check.text(x);
         x.insert(0, Check.codes("abc"), 0);
@@ -38,7 +38,7 @@ public final class RedoTest {
     }
 
     private static void groups() {
-        ChangeTracker x = Check.holding("abcd");
+        Subject x = Check.holding("abcd");
         x.open();
         x.erase(0, 1);
         x.erase(2, 1);
@@ -56,7 +56,7 @@ public final class RedoTest {
     }
 
     private static void wrongStates() {
-        ChangeTracker x = Check.holding("ab");
+        Subject x = Check.holding("ab");
         Check.state("redo() of none", x, x::redo);
         x.undo();
         x.open();
@@ -66,7 +66,7 @@ public final class RedoTest {
     }
 
     private static void anEditEndsIt() {
-        ChangeTracker x = Check.holding("ab");
+        Subject x = Check.holding("ab");
         x.insert(2, Check.codes("c"), 0);
         x.undo();
         x.insert(2, Check.codes("d"), 0);
@@ -79,7 +79,7 @@ public final class RedoTest {
     }
 
     private static void whatChangesNothingDoesNot() {
-        ChangeTracker x = Check.holding("ab");
+        Subject x = Check.holding("ab");
         x.insert(2, Check.codes("c"), 0);
         x.undo();
         x.erase(1, 0);
@@ -96,7 +96,7 @@ public final class RedoTest {
 
     /** "IllegalStateException: a group is open": with none to redo, and with some. */
     private static void aGroupIsOpen() {
-        ChangeTracker x = new ChangeTracker();
+        Subject x = new Subject();
         x.open();
         Check.state("redo() with none to redo", x, x::redo);
         x.close();
@@ -113,7 +113,7 @@ public final class RedoTest {
 
     /** "or none can be redone": at first, behind an edit, when all are redone. */
     private static void noneCanBeRedone() {
-        ChangeTracker x = new ChangeTracker();
+        Subject x = new Subject();
         Check.state("redo() of a new object", x, x::redo);
         x.insert(0, Check.codes("a"), 0);
         Check.state("redo() behind an edit", x, x::redo);

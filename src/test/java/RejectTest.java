@@ -16,7 +16,7 @@ public final class RejectTest {
     }
 
     private static void inserted() {
-        ChangeTracker x = Check.holding("a");
+        Subject x = Check.holding("a");
         Check.tracked(x, 3);
         x.insert(1, Check.codes("b"), 5);
         Check.is("reject by others", x.reject(0, 2, 255 - 8), 0);
@@ -25,7 +25,7 @@ public final class RejectTest {
     }
 
     private static void erased() {
-        ChangeTracker x = Check.holding("ab");
+        Subject x = Check.holding("ab");
         for (int author = 1; author <= 3; author++) {
             Check.tracked(x, author);
             x.erase(0, 1);
@@ -38,7 +38,7 @@ public final class RejectTest {
     }
 
     private static void formatted() {
-        ChangeTracker x = Check.holding("a");
+        Subject x = Check.holding("a");
         x.format(0, 1, 3);
         Check.tracked(x, 5);
         x.format(0, 1, 9);
@@ -51,7 +51,7 @@ public final class RejectTest {
     }
 
     private static void severalAtOnce() {
-        ChangeTracker x = new ChangeTracker();
+        Subject x = new Subject();
         Check.tracked(x, 1);
         x.insert(0, Check.codes("abcd"), 5);
         x.author(2);
@@ -67,7 +67,7 @@ public final class RejectTest {
     }
 
     private static void rangeAlone() {
-        ChangeTracker x = Check.holding("abcd");
+        Subject x = Check.holding("abcd");
         Check.tracked(x, 1);
         x.erase(0, 4);
         Check.is("reject(1, 2, 2)", x.reject(1, 2, 2), 2);
@@ -78,7 +78,7 @@ public final class RejectTest {
     }
 
     private static void authorZero() {
-        ChangeTracker x = Check.holding("ab");
+        Subject x = Check.holding("ab");
         Check.tracked(x, 0);
         x.erase(0, 1);
         Check.is("reject(0, 2, 254)", x.reject(0, 2, 254), 0);
@@ -87,7 +87,7 @@ public final class RejectTest {
     }
 
     private static void wrongArguments() {
-        ChangeTracker x = Check.holding("abc");
+        Subject x = Check.holding("abc");
         Check.index("reject(0, 4, 1)", x, () -> x.reject(0, 4, 1));
         Check.index("reject(-1, 1, 1)", x, () -> x.reject(-1, 1, 1));
         Check.index("reject(1, -1, 1)", x, () -> x.reject(1, -1, 1));
@@ -100,7 +100,7 @@ public final class RejectTest {
 
     /** "how many characters went or have another mark" */
     private static void wentOrHaveAnotherMark() {
-        ChangeTracker x = Check.holding("abd");
+        Subject x = Check.holding("abd");
         Check.tracked(x, 1);
         x.erase(0, 1);
         x.format(1, 1, 9);
@@ -115,14 +115,14 @@ public final class RejectTest {
     /** "there is no such .. set (1 .. 255)" */
     private static void setsFrom1To255() {
         for (int set = 1; set <= 255; set++) {
-            ChangeTracker x = new ChangeTracker();
+            Subject x = new Subject();
             Check.tracked(x, 0);
             x.insert(0, Check.codes("a"), 0);
             x.author(7);
             x.insert(1, Check.codes("b"), 0);
             Check.is("reject(0, 2, " + set + ")", x.reject(0, 2, set), (set & 1) + (set >> 7));
         }
-        ChangeTracker x = Check.holding("ab");
+        Subject x = Check.holding("ab");
         Check.tracked(x, 0);
         x.erase(0, 2);
         int[] wrong = {0, -1, -255, 256, 257, 511, 512, Integer.MIN_VALUE, Integer.MAX_VALUE};
@@ -134,7 +134,7 @@ public final class RejectTest {
 
     /** A range of none has no character that could go. */
     private static void ofNone() {
-        ChangeTracker x = Check.holding("ab");
+        Subject x = Check.holding("ab");
         Check.tracked(x, 0);
         x.erase(0, 2);
         String before = Check.all(x);
@@ -142,12 +142,12 @@ public final class RejectTest {
             Check.is("reject(" + at + ", 0, 255)", x.reject(at, 0, 255), 0);
         }
         Check.is("the state", Check.all(x), before);
-        Check.is("reject(0, 0, 1) of a new object", new ChangeTracker().reject(0, 0, 1), 0);
+        Check.is("reject(0, 0, 1) of a new object", new Subject().reject(0, 0, 1), 0);
     }
 
     /** All 600 have another mark, or go. */
     private static void ofAFullText() {
-        ChangeTracker x = Check.holding(600);
+        Subject x = Check.holding(600);
         Check.is("reject(0, 600, 255) of plain ones", x.reject(0, 600, 255), 0);
         Check.tracked(x, 6);
         x.format(0, 600, 1);

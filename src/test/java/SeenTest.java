@@ -12,8 +12,8 @@ public final class SeenTest {
     }
 
     /** a erased, b formatted from 1 to 5, c plain, d inserted, e inserted and erased, f inserted and formatted. */
-    private static ChangeTracker marked() {
-        ChangeTracker x = new ChangeTracker();
+    private static Subject marked() {
+        Subject x = new Subject();
         x.insert(0, Check.codes("abc"), 1);
         Check.tracked(x, 1);
         x.erase(0, 1);
@@ -26,28 +26,28 @@ public final class SeenTest {
     }
 
     private static void codes() {
-        ChangeTracker x = marked();
+        Subject x = marked();
         Check.is("view 0", Check.view(x, 0), "abcdef");
         Check.is("view 1", Check.view(x, 1), "bcdf");
         Check.is("view 2", Check.view(x, 2), "abc");
     }
 
     private static void formats() {
-        ChangeTracker x = marked();
+        Subject x = marked();
         Check.is("view 0", row(x, 0, 1), "1 5 1 2 2 6 ");
         Check.is("view 1", row(x, 1, 1), "5 1 2 6 ");
         Check.is("view 2", row(x, 2, 1), "1 1 1 ");
     }
 
     private static void places() {
-        ChangeTracker x = marked();
+        Subject x = marked();
         Check.is("view 0", row(x, 0, 2), "0 1 2 3 4 5 ");
         Check.is("view 1", row(x, 1, 2), "1 2 3 5 ");
         Check.is("view 2", row(x, 2, 2), "0 1 2 ");
     }
 
     private static void asIfAllAccepted() {
-        ChangeTracker x = marked();
+        Subject x = marked();
         String accepted = row(x, 1, 0) + row(x, 1, 1);
         String rejected = row(x, 2, 0) + row(x, 2, 1);
         x.accept(0, 6, 255);
@@ -57,7 +57,7 @@ public final class SeenTest {
         Check.is("all rejected", row(x, 0, 0) + row(x, 0, 1), rejected);
     }
 
-    private static String row(ChangeTracker x, int view, int what) {
+    private static String row(Subject x, int view, int what) {
         StringBuilder row = new StringBuilder();
         for (int i = 0; i < x.length(view); i++) {
             row.append(x.seen(view, i, what)).append(' ');
@@ -66,7 +66,7 @@ public final class SeenTest {
     }
 
     private static void wrongArguments() {
-        ChangeTracker x = marked();
+        Subject x = marked();
         int[] lengths = {6, 4, 3};
         for (int v = 0; v < 3; v++) {
             int view = v;
@@ -85,7 +85,7 @@ public final class SeenTest {
 
     /** "IllegalArgumentException: also for another what." */
     private static void otherWhats() {
-        ChangeTracker x = marked();
+        Subject x = marked();
         int[] wrong = {-1, 3, 4, 256, Integer.MIN_VALUE, Integer.MAX_VALUE};
         for (int what : wrong) {
             for (int v = 0; v < 3; v++) {
@@ -94,13 +94,13 @@ public final class SeenTest {
                 Check.argument("seen(" + view + ", 600, " + what + ")", x, () -> x.seen(view, 600, what));
             }
         }
-        ChangeTracker y = new ChangeTracker();
+        Subject y = new Subject();
         Check.argument("seen(0, 0, 3) of a new object", y, () -> y.seen(0, 0, 3));
     }
 
     /** "Of character i of a view": there is one up to the view's length less 1, not the text's. */
     private static void lastOfEachView() {
-        ChangeTracker x = marked();
+        Subject x = marked();
         Check.is("the last of view 0", x.seen(0, 5, 0), 'f');
         Check.is("the last of view 1", x.seen(1, 3, 0), 'f');
         Check.is("the last of view 2", x.seen(2, 2, 0), 'c');

@@ -19,7 +19,7 @@ public final class TextTermsTest {
 
     /** "The TEXT is a row of at most 600 CHARACTERS" */
     private static void atMostSixHundredCharacters() {
-        ChangeTracker x = Check.holding(592);
+        Subject x = Check.holding(592);
         Check.is("insert up to 600", x.insert(592, Check.codes("abcdefgh"), 0), 600);
         Check.is("length(0)", x.length(0), 600);
         Check.state("insert into a full text", x, () -> x.insert(0, Check.codes("y"), 0));
@@ -31,7 +31,7 @@ public final class TextTermsTest {
 
     /** The same sentence: what is erased, but tracked, is still a character of the text. */
     private static void erasedCharactersCountWhileTheyAreTracked() {
-        ChangeTracker x = Check.holding(600);
+        Subject x = Check.holding(600);
         Check.tracked(x, 1);
         Check.is("erase of all, tracked", x.erase(0, 600), 600);
         Check.is("length(1)", x.length(1), 0);
@@ -42,7 +42,7 @@ public final class TextTermsTest {
 
     /** "places 0, 1, .." */
     private static void placesFromZeroOn() {
-        ChangeTracker x = Check.holding(592);
+        Subject x = Check.holding(592);
         x.insert(592, Check.codes("abcdefgh"), 0);
         Check.is("seen(0, 0, 2)", x.seen(0, 0, 2), 0);
         Check.is("seen(0, 599, 2)", x.seen(0, 599, 2), 599);
@@ -58,7 +58,7 @@ public final class TextTermsTest {
 
     /** "A character has a CODE (1 .. 255)" */
     private static void codesFromOneTo255() {
-        ChangeTracker x = new ChangeTracker();
+        Subject x = new Subject();
         for (int first = 1; first <= 255; first += 8) {
             long codes = 0;
             for (int i = 0; i < 8 && first + i <= 255; i++) {
@@ -74,8 +74,8 @@ public final class TextTermsTest {
 
     /** "a FORMAT (0 .. 255)" */
     private static void formatsFromZeroTo255() {
-        ChangeTracker x = new ChangeTracker();
-        ChangeTracker y = Check.holding("a");
+        Subject x = new Subject();
+        Subject y = Check.holding("a");
         for (int format = 0; format <= 255; format++) {
             x.insert(format, Check.codes("a"), format);
             y.format(0, 1, format);
@@ -88,7 +88,7 @@ public final class TextTermsTest {
 
     /** The same sentence, and "IllegalArgumentException: there is no such .. format" */
     private static void noFormatBeyond() {
-        ChangeTracker x = Check.holding("ab");
+        Subject x = Check.holding("ab");
         int[] wrong = {-1, -256, 256, 257, 511, 512, Integer.MIN_VALUE, Integer.MAX_VALUE};
         for (int format : wrong) {
             Check.argument("insert(1, 65, " + format + ")", x, () -> x.insert(1, 65, format));
@@ -99,7 +99,7 @@ public final class TextTermsTest {
 
     /** "each as bits, author a being 1 << a; authors are 0 .. 7" */
     private static void authorsAreBits() {
-        ChangeTracker x = Check.holding("ab");
+        Subject x = Check.holding("ab");
         for (int author = 0; author <= 7; author++) {
             Check.tracked(x, author);
             x.insert(2 + author, Check.codes("c"), 0);
@@ -118,7 +118,7 @@ public final class TextTermsTest {
     private static void oldFormatIfSomebodyFormatted() {
         int[] olds = {0, 1, 254, 255};
         for (int old : olds) {
-            ChangeTracker x = new ChangeTracker();
+            Subject x = new Subject();
             x.insert(0, Check.codes("a"), old);
             Check.is("mark(0, 3) before", x.mark(0, 3), -1);
             Check.tracked(x, 1);
@@ -136,7 +136,7 @@ public final class TextTermsTest {
 
     /** "It is PLAIN if nobody did any of these." */
     private static void plainIfNobodyDidAny() {
-        ChangeTracker x = Check.holding("abc");
+        Subject x = Check.holding("abc");
         Check.is("count(0) of plain ones", x.count(0), 0);
         Check.is("count(1) of plain ones", x.count(1), 0);
         Check.tracked(x, 0);
@@ -157,7 +157,7 @@ public final class TextTermsTest {
 
     /** "It is OWN to an author if just this one inserted it." */
     private static void ownIfJustThisOneInserted() {
-        ChangeTracker x = Check.holding("a");
+        Subject x = Check.holding("a");
         Check.tracked(x, 1);
         x.insert(1, Check.codes("bc"), 0);
         Check.is("one that nobody inserted is not own", x.erase(0, 1), 3);
@@ -172,7 +172,7 @@ public final class TextTermsTest {
 
     /** "those of the author who is at work, at first 0, and TRACKED if tracking is on (at first it is off)" */
     private static void authorZeroAtFirstAndUntracked() {
-        ChangeTracker x = new ChangeTracker();
+        Subject x = new Subject();
         x.insert(0, Check.codes("ab"), 0);
         Check.is("insert at first", Check.text(x), "a:0 0/0/0/-1, b:0 0/0/0/-1");
         Check.is("format at first", x.format(0, 1, 3), 1);
@@ -185,7 +185,7 @@ public final class TextTermsTest {
 
     /** "the first three are those of the author who is at work": accept() and reject() are those of a set. */
     private static void firstThreeEditsAreTheAuthors() {
-        ChangeTracker x = Check.holding("ab");
+        Subject x = Check.holding("ab");
         Check.tracked(x, 1);
         x.erase(0, 2);
         x.author(2);
@@ -197,7 +197,7 @@ public final class TextTermsTest {
 
     /** "An object is used for at most 512 calls after it has been made" */
     private static void all512Calls() {
-        ChangeTracker x = new ChangeTracker();
+        Subject x = new Subject();
         for (int call = 1; call <= 511; call++) {
             int want = Math.min(call, 600);
             Check.is("call " + call, x.insert(call - 1, Check.codes("a"), call % 256), want);

@@ -8,7 +8,7 @@ public final class TrackTest {
     }
 
     private static void answersWhetherItWasOn() {
-        ChangeTracker x = new ChangeTracker();
+        Subject x = new Subject();
         Check.is("track(true) first", x.track(true), false);
         Check.is("track(true) again", x.track(true), true);
         Check.is("track(false)", x.track(false), true);
@@ -16,7 +16,7 @@ public final class TrackTest {
     }
 
     private static void editsAreTrackedWhileItIsOn() {
-        ChangeTracker x = new ChangeTracker();
+        Subject x = new Subject();
         x.insert(0, Check.codes("abc"), 0);
         x.author(1);
         x.track(true);
@@ -28,7 +28,7 @@ public final class TrackTest {
     }
 
     private static void isNoEdit() {
-        ChangeTracker x = Check.holding("ab");
+        Subject x = Check.holding("ab");
         x.track(true);
         x.undo();
         Check.is("track() behind undo()", x.track(false), true);

@@ -13,7 +13,7 @@ public final class UndoTest {
     }
 
     private static void allKindsOfEdits() {
-        ChangeTracker x = Check.holding("abcd");
+        Subject x = Check.holding("abcd");
         Check.tracked(x, 1);
         String[] texts = new String[6];
         texts[0] = Check.text(x);
@@ -38,7 +38,7 @@ public final class UndoTest {
     }
 
     private static void groups() {
-        ChangeTracker x = Check.holding("abcd");
+        Subject x = Check.holding("abcd");
         x.open();
         x.erase(0, 1);
         x.erase(2, 1);
@@ -52,7 +52,7 @@ public final class UndoTest {
     }
 
     private static void wrongStates() {
-        ChangeTracker x = Check.holding("ab");
+        Subject x = Check.holding("ab");
         x.open();
         Check.state("undo() in a group", x, x::undo);
         x.erase(0, 1);
@@ -63,7 +63,7 @@ public final class UndoTest {
     }
 
     private static void fortyGroups() {
-        ChangeTracker x = new ChangeTracker();
+        Subject x = new Subject();
         for (int i = 0; i < 40; i++) {
             x.insert(i, Check.codes("a"), i);
         }
@@ -84,7 +84,7 @@ public final class UndoTest {
     }
 
     private static void weightOfThreeThousand() {
-        ChangeTracker x = Check.holding(500);
+        Subject x = Check.holding(500);
         x.open();
         x.format(0, 500, 1);
         x.format(0, 500, 2);
@@ -101,7 +101,7 @@ public final class UndoTest {
     }
 
     private static void asFewAsNeedBe() {
-        ChangeTracker x = Check.holding(600);
+        Subject x = Check.holding(600);
         x.format(0, 600, 1);
         x.format(0, 600, 2);
         x.format(0, 300, 3);
@@ -120,7 +120,7 @@ public final class UndoTest {
 
     /** "IllegalStateException: a group is open": with none to undo, with some, with an edit of its own. */
     private static void aGroupIsOpen() {
-        ChangeTracker x = new ChangeTracker();
+        Subject x = new Subject();
         x.open();
         Check.state("undo() with none to undo", x, x::undo);
         x.insert(0, Check.codes("a"), 0);
@@ -135,7 +135,7 @@ public final class UndoTest {
 
     /** "or none can be undone": at first, when all are undone, when all are forgotten. */
     private static void noneCanBeUndone() {
-        ChangeTracker x = new ChangeTracker();
+        Subject x = new Subject();
         Check.state("undo() of a new object", x, x::undo);
         x.open();
         x.close();
@@ -145,7 +145,7 @@ public final class UndoTest {
         Check.state("undo() behind the only undo()", x, x::undo);
         x.redo();
         Check.is("undo() behind redo()", x.undo(), 1);
-        ChangeTracker y = Check.holding(600);
+        Subject y = Check.holding(600);
         y.open();
         y.format(0, 600, 1);
         y.format(0, 600, 2);

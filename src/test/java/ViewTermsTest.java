@@ -14,8 +14,8 @@ public final class ViewTermsTest {
     }
 
     /** Eight characters of format 1, one for each choice of inserted, erased, formatted (to 2), by 0, 3 and 7. */
-    private static ChangeTracker marked() {
-        ChangeTracker x = new ChangeTracker();
+    private static Subject marked() {
+        Subject x = new Subject();
         x.insert(0, Check.codes("abcd"), 1);
         Check.tracked(x, 0);
         x.insert(4, Check.codes("efgh"), 1);
@@ -29,7 +29,7 @@ public final class ViewTermsTest {
         return x;
     }
 
-    private static String view(ChangeTracker x, int view) {
+    private static String view(Subject x, int view) {
         StringBuilder row = new StringBuilder();
         for (int i = 0; i < x.length(view); i++) {
             row.append((char) x.seen(view, i, 0)).append(x.seen(view, i, 1)).append('@').append(x.seen(view, i, 2));
@@ -40,7 +40,7 @@ public final class ViewTermsTest {
 
     /** "There are three VIEWS" */
     private static void threeViews() {
-        ChangeTracker x = marked();
+        Subject x = marked();
         int[] wrong = {-1, -2, 3, 4, 256, 257, Integer.MIN_VALUE, Integer.MAX_VALUE};
         for (int view : wrong) {
             Check.is("length(" + view + ")", x.length(view), -1);
@@ -61,7 +61,7 @@ public final class ViewTermsTest {
 
     /** "1 those that would be left if all authors accepted all" */
     private static void leftIfAllAccepted() {
-        ChangeTracker x = marked();
+        Subject x = marked();
         Check.is("view 1", view(x, 1), "a1@0 b2@1 e1@4 f2@5 ");
         Check.is("accept(0, 8, 255)", x.accept(0, 8, 255), 7);
         Check.is("view 0 then", view(x, 0), "a1@0 b2@1 e1@2 f2@3 ");
@@ -71,7 +71,7 @@ public final class ViewTermsTest {
 
     /** "2 those that would be left if all rejected all" */
     private static void leftIfAllRejected() {
-        ChangeTracker x = marked();
+        Subject x = marked();
         Check.is("view 2", view(x, 2), "a1@0 b1@1 c1@2 d1@3 ");
         Check.is("reject(0, 8, 255)", x.reject(0, 8, 255), 7);
         Check.is("view 0 then", view(x, 0), "a1@0 b1@1 c1@2 d1@3 ");
@@ -81,7 +81,7 @@ public final class ViewTermsTest {
 
     /** "with the formats that they would have" */
     private static void formatsThatTheyWouldHave() {
-        ChangeTracker x = new ChangeTracker();
+        Subject x = new Subject();
         x.insert(0, Check.codes("a"), 255);
         x.insert(1, Check.codes("b"), 0);
         Check.tracked(x, 0);
@@ -96,7 +96,7 @@ public final class ViewTermsTest {
 
     /** Both sentences: what is inserted and erased is left in neither case. */
     private static void inNeitherOfTheTwo() {
-        ChangeTracker x = new ChangeTracker();
+        Subject x = new Subject();
         Check.tracked(x, 0);
         x.insert(0, Check.codes("a"), 0);
         x.author(1);
@@ -109,13 +109,13 @@ public final class ViewTermsTest {
 
     /** A view may be empty though the text is not. */
     private static void emptyViews() {
-        ChangeTracker x = Check.holding("abc");
+        Subject x = Check.holding("abc");
         Check.tracked(x, 1);
         x.erase(0, 3);
         lengths(x, 3, 0, 3);
         Check.index("seen(1, 0, 2)", x, () -> x.seen(1, 0, 2));
         Check.is("seen(2, 2, 2)", x.seen(2, 2, 2), 2);
-        ChangeTracker y = new ChangeTracker();
+        Subject y = new Subject();
         Check.tracked(y, 1);
         y.insert(0, Check.codes("abc"), 0);
         lengths(y, 3, 3, 0);
@@ -125,7 +125,7 @@ public final class ViewTermsTest {
 
     /** Views of a full text, to the last character. */
     private static void fullViews() {
-        ChangeTracker x = Check.holding(600);
+        Subject x = Check.holding(600);
         lengths(x, 600, 600, 600);
         Check.tracked(x, 1);
         x.erase(0, 599);
@@ -137,7 +137,7 @@ public final class ViewTermsTest {
     }
 
     private static void viewsOfAnEmptyText() {
-        ChangeTracker x = new ChangeTracker();
+        Subject x = new Subject();
         lengths(x, 0, 0, 0);
         for (int v = 0; v <= 2; v++) {
             int view = v;
@@ -146,7 +146,7 @@ public final class ViewTermsTest {
         }
     }
 
-    private static void lengths(ChangeTracker x, int all, int accepted, int rejected) {
+    private static void lengths(Subject x, int all, int accepted, int rejected) {
         Check.is("length(0)", x.length(0), all);
         Check.is("length(1)", x.length(1), accepted);
         Check.is("length(2)", x.length(2), rejected);

@@ -21,14 +21,14 @@ public final class WeightTermsTest {
         Check.end();
     }
 
-    private static void weighs(String call, ChangeTracker x, int groups, int weight) {
+    private static void weighs(String call, Subject x, int groups, int weight) {
         Check.is("count(2) behind " + call, x.count(2), groups);
         Check.is("count(4) behind " + call, x.count(4), weight);
     }
 
     /** "how many characters lie between the first and the last place that it changes (.. both counted" */
     private static void charactersBeforeAndBehind() {
-        ChangeTracker x = Check.holding("abcdefgh");
+        Subject x = Check.holding("abcdefgh");
         weighs("insert of 8: 0 and 8", x, 1, 8);
         x.erase(2, 3);
         weighs("erase of 3: 3 and 0", x, 2, 8 + 3);
@@ -45,7 +45,7 @@ public final class WeightTermsTest {
 
     /** "between the first and the last place": those in the midst are counted, changed or not. */
     private static void allBetweenTheFirstAndTheLastPlace() {
-        ChangeTracker x = Check.holding("abcdefgh");
+        Subject x = Check.holding("abcdefgh");
         x.format(1, 6, 1);
         weighs("format of six", x, 2, 8 + 12);
         x.format(0, 8, 1);
@@ -59,7 +59,7 @@ public final class WeightTermsTest {
 
     /** "places are taken away from both ends as far as the characters there .. are the same" */
     private static void sameAtTheEndsAreTakenAway() {
-        ChangeTracker x = Check.holding("abcdefgh");
+        Subject x = Check.holding("abcdefgh");
         x.format(3, 2, 1);
         x.format(0, 8, 0);
         weighs("format of eight that changes two", x, 3, 8 + 4 + 4);
@@ -72,7 +72,7 @@ public final class WeightTermsTest {
 
     /** "the characters there, with formats and marks": the code alone is not enough. */
     private static void sameWithFormatsAndMarks() {
-        ChangeTracker x = Check.holding("aaaa");
+        Subject x = Check.holding("aaaa");
         x.insert(4, Check.codes("a"), 1);
         x.erase(0, 1);
         weighs("erase of the first of aaaa and an a of format 1", x, 3, 4 + 1 + 1);
@@ -91,13 +91,13 @@ public final class WeightTermsTest {
     /** "from the beginning first": no place is taken away twice. */
     private static void fromTheBeginningFirst() {
         for (int at = 0; at <= 3; at++) {
-            ChangeTracker x = Check.holding("aaa");
+            Subject x = Check.holding("aaa");
             x.insert(at, Check.codes("aa"), 0);
             weighs("insert of aa at " + at + " of aaa", x, 2, 3 + 2);
             x.erase(at, 2);
             weighs("erase of aa at " + at, x, 3, 3 + 2 + 2);
         }
-        ChangeTracker x = Check.holding("abab");
+        Subject x = Check.holding("abab");
         x.erase(1, 2);
         weighs("abab to ab", x, 2, 4 + 2);
         x = Check.holding("aba");
@@ -107,7 +107,7 @@ public final class WeightTermsTest {
 
     /** An edit that changes nothing weighs nothing; one of a full text weighs 1200. */
     private static void leastAndMostWeight() {
-        ChangeTracker x = Check.holding(600);
+        Subject x = Check.holding(600);
         int before = x.count(4);
         x.format(0, 600, 0);
         Check.is("count(4) behind no change", x.count(4), before);
@@ -126,7 +126,7 @@ public final class WeightTermsTest {
 
     /** A group weighs what its edits weigh, not what changed between its ends. */
     private static void aGroupsWeight() {
-        ChangeTracker x = Check.holding("abc");
+        Subject x = Check.holding("abc");
         x.open();
         x.insert(3, Check.codes("de"), 0);
         x.erase(3, 2);
@@ -139,7 +139,7 @@ public final class WeightTermsTest {
 
     /** "At most 40 groups .. can be undone" */
     private static void fortyGroups() {
-        ChangeTracker x = new ChangeTracker();
+        Subject x = new Subject();
         for (int i = 1; i <= 120; i++) {
             x.insert(i - 1, Check.codes("a"), i);
             Check.is("count(2) behind " + i + " groups", x.count(2), Math.min(i, 40));
@@ -158,7 +158,7 @@ public final class WeightTermsTest {
 
     /** "and a weight of 3000 in all" */
     private static void weightOfThreeThousand() {
-        ChangeTracker x = Check.holding(600);
+        Subject x = Check.holding(600);
         x.format(0, 600, 1);
         x.format(0, 600, 2);
         x.format(0, 299, 3);
@@ -176,7 +176,7 @@ public final class WeightTermsTest {
 
     /** "if there are more when a group ends": not before. */
     private static void whenAGroupEnds() {
-        ChangeTracker x = new ChangeTracker();
+        Subject x = new Subject();
         for (int i = 0; i < 40; i++) {
             x.insert(i, Check.codes("a"), 0);
         }
@@ -199,7 +199,7 @@ public final class WeightTermsTest {
 
     /** "the earliest ones are forgotten" */
     private static void earliestOnes() {
-        ChangeTracker x = new ChangeTracker();
+        Subject x = new Subject();
         for (int i = 0; i < 43; i++) {
             x.insert(0, Check.codes("a"), i);
         }
@@ -213,7 +213,7 @@ public final class WeightTermsTest {
 
     /** The same, when there were forty before and some were forgotten for their weight. */
     private static void againAndAgain() {
-        ChangeTracker x = Check.holding(400);
+        Subject x = Check.holding(400);
         x.format(0, 400, 1);
         x.format(0, 400, 2);
         x.format(0, 400, 3);
@@ -237,7 +237,7 @@ public final class WeightTermsTest {
 
     /** "as few as need be" */
     private static void asFewAsNeedBe() {
-        ChangeTracker x = Check.holding(600);
+        Subject x = Check.holding(600);
         x.format(0, 600, 1);
         x.format(0, 600, 2);
         weighs("2400 and 320", x, 40, 2400 + 8 * 38);
@@ -249,7 +249,7 @@ public final class WeightTermsTest {
 
     /** Both limits: forty groups, and a weight of 3000, are what is left at most. */
     private static void bothLimitsAtOnce() {
-        ChangeTracker x = fortyGroupsOfSeventyFive();
+        Subject x = fortyGroupsOfSeventyFive();
         weighs("40 groups of 75", x, 40, 3000);
         x.insert(0, Check.codes("a"), 0);
         weighs("one more of 1", x, 40, 3000 - 75 + 1);
@@ -264,8 +264,8 @@ public final class WeightTermsTest {
     }
 
     /** A text of 80, and forty groups that weigh 75 each: 37 formatted, one inserted or erased. */
-    private static ChangeTracker fortyGroupsOfSeventyFive() {
-        ChangeTracker x = Check.holding(80);
+    private static Subject fortyGroupsOfSeventyFive() {
+        Subject x = Check.holding(80);
         for (int i = 0; i < 40; i++) {
             x.open();
             x.format(0, 37, 100 + i);
@@ -281,7 +281,7 @@ public final class WeightTermsTest {
 
     /** The same sentence, if it is the last group that is too heavy: 3000 are kept, 3001 are not. */
     private static void aGroupTooHeavyByItself() {
-        ChangeTracker x = Check.holding(500);
+        Subject x = Check.holding(500);
         x.open();
         x.format(0, 500, 1);
         x.format(0, 500, 2);
@@ -290,7 +290,7 @@ public final class WeightTermsTest {
         weighs("a group of 3000", x, 1, 3000);
         Check.is("undo() of it", x.undo(), 3);
         Check.is("redo() of it", x.redo(), 3);
-        ChangeTracker y = Check.holding(500);
+        Subject y = Check.holding(500);
         y.open();
         y.format(0, 500, 1);
         y.format(0, 500, 2);
@@ -308,7 +308,7 @@ public final class WeightTermsTest {
 
     /** "can be undone": those that can be redone are not among the 40 and the 3000. */
     private static void undoneOnesDoNotCount() {
-        ChangeTracker x = new ChangeTracker();
+        Subject x = new Subject();
         for (int i = 0; i < 40; i++) {
             x.insert(i, Check.codes("a"), 0);
         }
@@ -324,7 +324,7 @@ public final class WeightTermsTest {
 
     /** "when a group ends": undo() and redo() end none. */
     private static void undoAndRedoForgetNone() {
-        ChangeTracker x = fortyGroupsOfSeventyFive();
+        Subject x = fortyGroupsOfSeventyFive();
         for (int i = 1; i <= 40; i++) {
             x.undo();
             weighs("undo() " + i, x, 40 - i, 3000 - 75 * i);
